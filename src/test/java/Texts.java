@@ -46,7 +46,8 @@ final class Texts {
 
     static String plan(SeatSwap x) {
         StringBuilder text = new StringBuilder();
-        for (int i = 0; i < x.planLength(); i++) {
+        int length = x.planLength();
+        for (int i = 0; i < length; i++) {
             text.append((char) x.planByte(i));
         }
         return text.toString();
@@ -54,7 +55,8 @@ final class Texts {
 
     static String setup(SeatSwap x) {
         StringBuilder text = new StringBuilder();
-        for (int i = 0; i < x.setupLength(); i++) {
+        int length = x.setupLength();
+        for (int i = 0; i < length; i++) {
             text.append((char) x.setupByte(i));
         }
         return text.toString();
@@ -62,23 +64,28 @@ final class Texts {
 
     static String name(SeatSwap x, int traveller) {
         StringBuilder text = new StringBuilder();
-        for (int i = 0; x.letter(traveller, i) > 0; i++) {
-            text.append((char) ('a' - 1 + x.letter(traveller, i)));
+        for (int i = 0; i < 6; i++) {
+            int letter = x.letter(traveller, i);
+            text.append(letter > 0 ? String.valueOf((char) ('a' - 1 + letter)) : "");
         }
         return text.toString();
     }
 
-    /** All that operations change, as far as it can be seen, and the setup. */
+    /** What operations change, in some sixty calls, as an object is good for 512. */
     static String state(SeatSwap x) {
-        StringBuilder text = new StringBuilder(setup(x));
+        StringBuilder text = new StringBuilder("values");
         for (int what = 0; what <= 15; what++) {
             text.append(' ').append(x.value(what));
         }
-        for (int i = 0; i < x.value(15); i++) {
-            text.append(" |");
-            for (int what = 0; what < 3; what++) {
-                text.append(' ').append(x.log(i, what));
+        for (int t = 0; t < x.value(3); t++) {
+            text.append(" | ").append((char) ('a' - 1 + x.letter(t, 0)));
+            for (int what = 0; what <= 8; what++) {
+                text.append(' ').append(x.of(t, what));
             }
+        }
+        int entries = x.value(15);
+        for (int what = 0; what < 3 && entries > 0; what++) {
+            text.append(what == 0 ? " | log " : " ").append(x.log(0, what)).append(' ').append(x.log(entries - 1, what));
         }
         return text.toString();
     }
