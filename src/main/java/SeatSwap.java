@@ -14,6 +14,7 @@ public final class SeatSwap {
     private static final int MOST_TIME = 999;
     private static final int MOST_LIKE = 9;
     private static final int MOST_PULLS = 3;
+    private static final int MOST_SETTLED = 99;
     private static final int SLOTS = 2;
 
     private final Tape tape;
@@ -50,11 +51,11 @@ public final class SeatSwap {
         if (!tape.hasRoom()) {
             return INVALID;
         }
-        tape.addFourBytes(a);
-        tape.addFourBytes(b);
-        tape.addFourBytes(c);
-        tape.addFourBytes(d);
-        tape.addFourBytes(e);
+        tape.putFour(a);
+        tape.putFour(b);
+        tape.putFour(c);
+        tape.putFour(d);
+        tape.putFour(e);
         return tape.length;
     }
 
@@ -101,7 +102,7 @@ public final class SeatSwap {
         }
         past.remember(train);
         guest.clear();
-        guest.name = reader.packedName();
+        guest.name = reader.nameOnTape();
         guest.seat = seat;
         guest.ticket = ticket;
         guest.family = family;
@@ -118,7 +119,7 @@ public final class SeatSwap {
         if (!train.isTraveller(traveller) || !train.isInRange(what, value)) {
             return INVALID;
         }
-        Traveller who = train.travellers[traveller];
+        Traveller who = train.traveller(traveller);
         int former = who.settable(what);
         if (former == value) {
             return NOT_FOUND;
@@ -284,7 +285,7 @@ public final class SeatSwap {
         if (!train.isTraveller(traveller)) {
             return INVALID;
         }
-        Traveller who = train.travellers[traveller];
+        Traveller who = train.traveller(traveller);
         switch (what) {
             case 0: return who.seat;
             case 1: return who.ticket;
@@ -306,7 +307,7 @@ public final class SeatSwap {
         if (!train.isTraveller(traveller) || i < 0) {
             return INVALID;
         }
-        int letter = train.travellers[traveller].letterAt(i);
+        int letter = train.traveller(traveller).letterAt(i);
         return letter == 0 ? NOT_FOUND : letter;
     }
 
@@ -424,15 +425,16 @@ public final class SeatSwap {
         if (i < 0 || !isIn(what, 0, Log.PARTS - 1)) {
             return INVALID;
         }
-        return i < train.log.size ? train.log.part(i, what) : NOT_FOUND;
+        return train.log.part(i, what);
     }
 
     public float full() {
-        return (float) train.count / (float) train.seats();
+        int seats = train.seats();
+        return seats > 0 ? (float) train.count / (float) seats : 0.0f;
     }
 
     public double meanJoy() {
-        return train.count == 0 ? 0.0 : (double) train.sumOfJoys() / (double) train.count;
+        return train.count > 0 ? (double) train.sumOfJoys() / (double) train.count : 0.0;
     }
 
     public int planLength() {
@@ -475,7 +477,12 @@ public final class SeatSwap {
 
     private int settleDraft() {
         draft.copyFrom(train);
-        return draft.settleDown();
+        for (int done = 0; done < MOST_SETTLED; done++) {
+            if (!draft.settleOnce()) {
+                return done;
+            }
+        }
+        return MOST_SETTLED;
     }
 
     /** One traveller; what it is set to is tested by the train. */
@@ -559,10 +566,12 @@ public final class SeatSwap {
         static final int SEATS_IN_ROW = 4;
         static final int SEATS_AT_TABLE = 8;
         static final int MOST_TABLES = 5;
+        static final int FAMILIES = MOST_FAMILY + 1;
         static final int PLAN_LINE = 7;
-        static final int MOST_SETTLED = 99;
 
         final Traveller[] travellers;
+        /** Is found under each number that no traveller has: so a wrong number can do no harm. */
+        final Traveller nobody;
         /** How many of each family are at each table: so a joy is told without asking all the others. */
         final int[] members;
         final Log log;
@@ -581,7 +590,8 @@ public final class SeatSwap {
             for (int t = 0; t < MOST_TRAVELLERS; t++) {
                 travellers[t] = new Traveller();
             }
-            members = new int[MOST_TABLES * (MOST_FAMILY + 1)];
+            nobody = new Traveller();
+            members = new int[MOST_TABLES * FAMILIES];
             log = new Log();
             rows = 4;
             first = 1;
@@ -604,9 +614,9 @@ public final class SeatSwap {
 
         void copyFrom(Train other) {
             for (int t = 0; t < other.count; t++) {
-                travellers[t].copyFrom(other.travellers[t]);
+                traveller(t).copyFrom(other.traveller(t));
             }
-            for (int i = 0; i < members.length; i++) {
+            for (int i = 0; i < members.length && i < other.members.length; i++) {
                 members[i] = other.members[i];
             }
             log.copyFrom(other.log);
@@ -622,6 +632,10 @@ public final class SeatSwap {
         }
 
         // ---- seats
+
+        Traveller traveller(int t) {
+            return t >= 0 && t < travellers.length ? travellers[t] : nobody;
+        }
 
         int seats() {
             return rows * SEATS_IN_ROW;
@@ -652,7 +666,7 @@ public final class SeatSwap {
 
         int whoHas(int seat) {
             for (int t = 0; t < count; t++) {
-                if (travellers[t].seat == seat) {
+                if (traveller(t).seat == seat) {
                     return t;
                 }
             }
@@ -668,13 +682,13 @@ public final class SeatSwap {
         }
 
         boolean maySit(int t, int seat) {
-            return allows(travellers[t].ticket, seat);
+            return allows(traveller(t).ticket, seat);
         }
 
         int barredBy(int otherFirst) {
             int barred = 0;
             for (int t = 0; t < count; t++) {
-                Traveller who = travellers[t];
+                Traveller who = traveller(t);
                 if (who.ticket == 0 && who.seat / SEATS_IN_ROW < otherFirst) {
                     barred++;
                 }
@@ -682,40 +696,42 @@ public final class SeatSwap {
             return barred;
         }
 
-        private static int membersIndex(int table, int family) {
-            return table * (MOST_FAMILY + 1) + family;
+        private int membersAt(int table, int family) {
+            int index = table * FAMILIES + family;
+            return index >= 0 && index < members.length ? members[index] : 0;
         }
 
         private void countAtTable(Traveller who, int by) {
-            members[membersIndex(who.seat / SEATS_AT_TABLE, who.family)] += by;
+            int index = who.seat / SEATS_AT_TABLE * FAMILIES + who.family;
+            if (index >= 0 && index < members.length) {
+                members[index] += by;
+            }
         }
 
         void admit(Traveller newcomer) {
             if (count >= travellers.length) {
                 return;
             }
-            travellers[count].copyFrom(newcomer);
+            traveller(count).copyFrom(newcomer);
             countAtTable(newcomer, 1);
             count++;
         }
 
         private void letOff(int t) {
-            Traveller leaver = travellers[t];
+            Traveller leaver = traveller(t);
             log.add(Log.GOT_OFF, t, leaver.seat);
             countAtTable(leaver, -1);
             count--;
             for (int above = t; above < count; above++) {
-                travellers[above] = travellers[above + 1];
+                traveller(above).copyFrom(traveller(above + 1));
             }
-            // The object stays in the array, for the next one who comes.
-            travellers[count] = leaver;
             gone++;
         }
 
         void goOn() {
             time++;
             for (int t = count - 1; t >= 0; t--) {
-                if (travellers[t].stop == time) {
+                if (traveller(t).stop == time) {
                     letOff(t);
                 }
             }
@@ -724,7 +740,7 @@ public final class SeatSwap {
         // ---- joys
 
         int joyIn(int t, int seat) {
-            Traveller who = travellers[t];
+            Traveller who = traveller(t);
             int row = seat / SEATS_IN_ROW;
             int column = seat % SEATS_IN_ROW;
             int joy = 4 * relativesAt(who, seat / SEATS_AT_TABLE) - who.pulls * Math.abs(row - who.row);
@@ -738,14 +754,14 @@ public final class SeatSwap {
         }
 
         int joyOf(int t) {
-            return joyIn(t, travellers[t].seat);
+            return joyIn(t, traveller(t).seat);
         }
 
         int relativesAt(Traveller who, int table) {
             if (who.family == 0) {
                 return 0;
             }
-            int there = members[membersIndex(table, who.family)];
+            int there = membersAt(table, who.family);
             return who.seat / SEATS_AT_TABLE == table ? there - 1 : there;
         }
 
@@ -795,7 +811,7 @@ public final class SeatSwap {
         // ---- tables and families
 
         private boolean isAt(int t, int table) {
-            return travellers[t].seat / SEATS_AT_TABLE == table;
+            return traveller(t).seat / SEATS_AT_TABLE == table;
         }
 
         int travellersAt(int table) {
@@ -832,7 +848,7 @@ public final class SeatSwap {
             int greatest = 0;
             int most = 0;
             for (int family = 1; family <= MOST_FAMILY; family++) {
-                int there = members[membersIndex(table, family)];
+                int there = membersAt(table, family);
                 if (there > most) {
                     most = there;
                     greatest = family;
@@ -844,7 +860,7 @@ public final class SeatSwap {
         int membersOf(int family) {
             int many = 0;
             for (int table = 0; table < MOST_TABLES; table++) {
-                many += members[membersIndex(table, family)];
+                many += membersAt(table, family);
             }
             return many;
         }
@@ -852,7 +868,7 @@ public final class SeatSwap {
         int tablesOf(int family) {
             int many = 0;
             for (int table = 0; table < MOST_TABLES; table++) {
-                if (members[membersIndex(table, family)] > 0) {
+                if (membersAt(table, family) > 0) {
                     many++;
                 }
             }
@@ -862,7 +878,7 @@ public final class SeatSwap {
         int sumOfJoysOf(int family) {
             int sum = 0;
             for (int t = 0; t < count; t++) {
-                if (travellers[t].family == family) {
+                if (traveller(t).family == family) {
                     sum += joyOf(t);
                 }
             }
@@ -882,7 +898,7 @@ public final class SeatSwap {
         int sumOfSweets() {
             int sum = 0;
             for (int t = 0; t < count; t++) {
-                sum += travellers[t].sweets;
+                sum += traveller(t).sweets;
             }
             return sum;
         }
@@ -890,22 +906,22 @@ public final class SeatSwap {
         // ---- exchanges
 
         private void sitDown(int t, int seat) {
-            Traveller who = travellers[t];
+            Traveller who = traveller(t);
             countAtTable(who, -1);
             who.seat = seat;
             countAtTable(who, 1);
         }
 
         private void exchangeSeats(int one, int two) {
-            int seat = travellers[one].seat;
-            sitDown(one, travellers[two].seat);
+            int seat = traveller(one).seat;
+            sitDown(one, traveller(two).seat);
             sitDown(two, seat);
         }
 
         private void passSeats(int one, int two, int three) {
-            int seat = travellers[one].seat;
-            sitDown(one, travellers[two].seat);
-            sitDown(two, travellers[three].seat);
+            int seat = traveller(one).seat;
+            sitDown(one, traveller(two).seat);
+            sitDown(two, traveller(three).seat);
             sitDown(three, seat);
         }
 
@@ -925,22 +941,28 @@ public final class SeatSwap {
         }
 
         int swapReason(int asker, int other, int sweets) {
-            if (!maySit(asker, travellers[other].seat) || !maySit(other, travellers[asker].seat)) {
+            if (!maySit(asker, traveller(other).seat) || !maySit(other, traveller(asker).seat)) {
                 return 1;
             }
-            if (travellers[asker].sweets < sweets) {
+            if (traveller(asker).sweets < sweets) {
                 return 2;
             }
-            if (riseBySwap(asker, other) < sweets) {
+            int joyOfAsker = joyOf(asker);
+            int joyOfOther = joyOf(other);
+            exchangeSeats(asker, other);
+            int riseOfAsker = joyOf(asker) - joyOfAsker;
+            int riseOfOther = joyOf(other) - joyOfOther;
+            exchangeSeats(asker, other);
+            if (riseOfAsker < sweets) {
                 return 3;
             }
-            return riseBySwap(other, asker) < -sweets ? 4 : 0;
+            return riseOfOther < -sweets ? 4 : 0;
         }
 
         void doSwap(int asker, int other, int sweets) {
             exchangeSeats(asker, other);
-            travellers[asker].sweets -= sweets;
-            travellers[other].sweets += sweets;
+            traveller(asker).sweets -= sweets;
+            traveller(other).sweets += sweets;
             swaps++;
             paid += sweets;
             log.add(Log.SWAPPED, 100 * asker + other, sweets);
@@ -957,15 +979,15 @@ public final class SeatSwap {
         }
 
         void doMove(int t, int seat) {
-            int former = travellers[t].seat;
+            int former = traveller(t).seat;
             sitDown(t, seat);
             moves++;
             log.add(Log.MOVED, t, former);
         }
 
         int ringReason(int one, int two, int three) {
-            if (!maySit(one, travellers[two].seat) || !maySit(two, travellers[three].seat)
-                    || !maySit(three, travellers[one].seat)) {
+            if (!maySit(one, traveller(two).seat) || !maySit(two, traveller(three).seat)
+                    || !maySit(three, traveller(one).seat)) {
                 return 1;
             }
             int joyOne = joyOf(one);
@@ -1036,29 +1058,18 @@ public final class SeatSwap {
             return best;
         }
 
-        int settleDown() {
-            for (int done = 0; done < MOST_SETTLED; done++) {
-                if (!settleOnce()) {
-                    return done;
-                }
-            }
-            return MOST_SETTLED;
-        }
-
-        private boolean settleOnce() {
+        boolean settleOnce() {
             int greatest = sumOfJoys();
             int bestAsker = NOT_FOUND;
             int bestOther = NOT_FOUND;
             for (int asker = 0; asker < count; asker++) {
                 // A swap for nothing is the same from both sides: the smaller one asks.
                 for (int other = asker + 1; other < count; other++) {
-                    if (swapReason(asker, other, 0) == 0) {
-                        int sum = sumIfSwapped(asker, other);
-                        if (sum > greatest) {
-                            greatest = sum;
-                            bestAsker = asker;
-                            bestOther = other;
-                        }
+                    int sum = swapReason(asker, other, 0) == 0 ? sumIfSwapped(asker, other) : greatest;
+                    if (sum > greatest) {
+                        greatest = sum;
+                        bestAsker = asker;
+                        bestOther = other;
                     }
                 }
             }
@@ -1085,7 +1096,7 @@ public final class SeatSwap {
             if (t == NOT_FOUND) {
                 return '.';
             }
-            return (joyOf(t) < 0 ? 'A' : 'a') + travellers[t].letterAt(0) - 1;
+            return (joyOf(t) < 0 ? 'A' : 'a') + traveller(t).letterAt(0) - 1;
         }
     }
 
@@ -1116,31 +1127,40 @@ public final class SeatSwap {
         }
 
         void copyFrom(Log other) {
-            for (int i = 0; i < parts.length; i++) {
+            for (int i = 0; i < parts.length && i < other.parts.length; i++) {
                 parts[i] = other.parts[i];
             }
             oldest = other.oldest;
             size = other.size;
         }
 
-        private int indexOf(int i) {
-            return (oldest + i) % MOST_ENTRIES * PARTS;
+        private int indexOf(int i, int what) {
+            return Math.floorMod(oldest + i, MOST_ENTRIES) * PARTS + what;
+        }
+
+        private void put(int index, int number) {
+            if (index >= 0 && index < parts.length) {
+                parts[index] = number;
+            }
         }
 
         void add(int kind, int one, int two) {
-            int index = indexOf(size);
+            put(indexOf(size, 0), kind);
+            put(indexOf(size, 1), one);
+            put(indexOf(size, 2), two);
             if (size < MOST_ENTRIES) {
                 size++;
             } else {
                 oldest = (oldest + 1) % MOST_ENTRIES;
             }
-            parts[index] = kind;
-            parts[index + 1] = one;
-            parts[index + 2] = two;
         }
 
         int part(int i, int what) {
-            return parts[indexOf(i) + what];
+            if (i >= size) {
+                return NOT_FOUND;
+            }
+            int index = indexOf(i, what);
+            return index >= 0 && index < parts.length ? parts[index] : NOT_FOUND;
         }
     }
 
@@ -1163,20 +1183,23 @@ public final class SeatSwap {
             count = 0;
         }
 
+        private Train trainAt(int i) {
+            return trains[Math.floorMod(oldest + i, MOST_UNDONE)];
+        }
+
         void remember(Train train) {
-            int index = (oldest + count) % MOST_UNDONE;
+            trainAt(count).copyFrom(train);
             if (count < MOST_UNDONE) {
                 count++;
             } else {
                 oldest = (oldest + 1) % MOST_UNDONE;
             }
-            trains[index].copyFrom(train);
         }
 
         void bringBack(Train train) {
             if (count > 0) {
                 count--;
-                train.copyFrom(trains[(oldest + count) % MOST_UNDONE]);
+                train.copyFrom(trainAt(count));
             }
         }
     }
@@ -1198,33 +1221,41 @@ public final class SeatSwap {
             return length + APPENDED <= MOST_BYTES;
         }
 
-        void addFourBytes(int four) {
-            for (int shift = 24; shift >= 0 && length < MOST_BYTES; shift -= 8) {
-                bytes[length] = four >> shift & 255;
+        void putFour(int four) {
+            for (int shift = 24; shift >= 0; shift -= 8) {
+                put(four >> shift & 255);
+            }
+        }
+
+        private void put(int one) {
+            if (length >= 0 && length < bytes.length) {
+                bytes[length] = one;
                 length++;
             }
         }
 
         int byteAt(int i) {
-            return isIn(i, 0, length - 1) ? bytes[i] : NO_BYTE;
+            return i >= 0 && i < length && i < bytes.length ? bytes[i] : NO_BYTE;
         }
     }
 
-    /** Reads the tape by its grammar; an error is at the token at which the reading stops. */
+    /** Reads the tape by its grammar. A token that cannot stand stays the current one: nothing is read any more. */
     private static final class SetupReader {
         static final int END = 0;
-        static final int WORD = 1;
-        static final int INT = 2;
-        static final int OTHER = 3;
-        /** What takeLike answers if a token cannot stand; no like is so great. */
-        static final int NO_LIKE = 10;
+        static final int WHITE = 1;
+        static final int WORD = 2;
+        static final int DIGITS = 3;
+        static final int OTHER = 4;
+        static final int MOST_DIGITS = 2;
+        static final int NO_INT = -1;
 
         final Tape tape;
         final Traveller who;
+        /** Where the current token starts and ends, and of what kind it is. */
         int start;
         int end;
         int kind;
-        int number;
+        boolean wrong;
 
         SetupReader(Tape tape) {
             this.tape = tape;
@@ -1233,59 +1264,40 @@ public final class SeatSwap {
 
         // ---- tokens
 
-        private static boolean isWhite(int sign) {
-            return sign == ' ' || sign == '\n';
-        }
-
-        private static boolean isLetter(int sign) {
-            return sign >= 'a' && sign <= 'z';
-        }
-
-        private static boolean isDigit(int sign) {
-            return sign >= '0' && sign <= '9';
+        private static int kindOf(int sign) {
+            if (sign >= 'a' && sign <= 'z') {
+                return WORD;
+            }
+            if (sign >= '0' && sign <= '9') {
+                return DIGITS;
+            }
+            if (sign == ' ' || sign == '\n') {
+                return WHITE;
+            }
+            return sign == Tape.NO_BYTE ? END : OTHER;
         }
 
         private void begin() {
+            wrong = false;
             end = 0;
             nextToken();
         }
 
         private void nextToken() {
             start = end;
-            while (start < tape.length && isWhite(tape.byteAt(start))) {
+            while (start < tape.length && kindOf(tape.byteAt(start)) == WHITE) {
                 start++;
             }
-            end = start;
-            int sign = tape.byteAt(start);
-            if (sign == Tape.NO_BYTE) {
-                kind = END;
-            } else if (isLetter(sign)) {
-                endWord();
-            } else if (isDigit(sign)) {
-                endInt();
-            } else {
-                kind = OTHER;
+            kind = kindOf(tape.byteAt(start));
+            end = start + 1;
+            boolean isRun = kind == WORD || kind == DIGITS;
+            while (isRun && end < tape.length && kindOf(tape.byteAt(end)) == kind) {
                 end++;
             }
         }
 
-        private void endWord() {
-            kind = WORD;
-            while (end < tape.length && isLetter(tape.byteAt(end))) {
-                end++;
-            }
-        }
-
-        private void endInt() {
-            number = 0;
-            while (end < tape.length && isDigit(tape.byteAt(end))) {
-                // A longer run of digits is no INT; its number is not needed and must not run over.
-                if (end < start + 2) {
-                    number = 10 * number + tape.byteAt(end) - '0';
-                }
-                end++;
-            }
-            kind = end <= start + 2 ? INT : OTHER;
+        private boolean isSign(char sign) {
+            return tape.byteAt(start) == sign;
         }
 
         private boolean isWord(String word) {
@@ -1310,47 +1322,68 @@ public final class SeatSwap {
             return kind == WORD && end - start <= Traveller.LONGEST_NAME && !isKeyword();
         }
 
-        private boolean isInt(int least, int most) {
-            return kind == INT && isIn(number, least, most);
+        private int packedName() {
+            int name = 0;
+            for (int i = start; i < end && i < start + Traveller.LONGEST_NAME; i++) {
+                name |= tape.byteAt(i) - 'a' + 1 << Traveller.LETTER_BITS * (i - start);
+            }
+            return name;
         }
 
-        private boolean isSign(char sign) {
-            return tape.byteAt(start) == sign;
+        private int number() {
+            if (kind != DIGITS || end - start > MOST_DIGITS) {
+                return NO_INT;
+            }
+            int number = 0;
+            for (int i = start; i < end; i++) {
+                number = 10 * number + tape.byteAt(i) - '0';
+            }
+            return number;
         }
 
-        private boolean takeWord(String word) {
-            boolean right = isWord(word);
-            if (right) {
+        // ---- what must stand, and what may
+
+        private void pass(boolean canStand) {
+            wrong = wrong || !canStand;
+            if (!wrong) {
                 nextToken();
             }
-            return right;
         }
 
-        private boolean takeSign(char sign) {
-            boolean right = isSign(sign);
-            if (right) {
+        private void take(String word) {
+            pass(isWord(word));
+        }
+
+        private boolean takeIfThere(String word) {
+            boolean there = !wrong && isWord(word);
+            if (there) {
                 nextToken();
             }
-            return right;
+            return there;
         }
 
-        private int takeInt() {
-            int taken = number;
-            nextToken();
-            return taken;
+        private int takeInt(int least, int most) {
+            int number = number();
+            pass(number >= least && number <= most);
+            return number;
         }
 
         private int takeLike() {
             boolean below = isSign('-');
-            if (!below && !isSign('+')) {
-                return NO_LIKE;
-            }
-            nextToken();
-            if (!isInt(0, MOST_LIKE)) {
-                return NO_LIKE;
-            }
-            int like = takeInt();
+            pass(below || isSign('+'));
+            int like = takeInt(0, MOST_LIKE);
             return below ? -like : like;
+        }
+
+        private int takeFreeSeat(Train train) {
+            wrong = wrong || !train.isFree(number());
+            return takeInt(0, train.seats() - 1);
+        }
+
+        private int takeName() {
+            int name = packedName();
+            pass(isName());
+            return name;
         }
 
         // ---- names
@@ -1360,119 +1393,59 @@ public final class SeatSwap {
             return start == 0 && end == tape.length && isName();
         }
 
-        int packedName() {
-            int name = 0;
-            for (int i = start; i < end && i < start + Traveller.LONGEST_NAME; i++) {
-                name |= tape.byteAt(i) - 'a' + 1 << Traveller.LETTER_BITS * (i - start);
-            }
-            return name;
+        int nameOnTape() {
+            begin();
+            return packedName();
         }
 
         // ---- setups
 
+        /** Answers whether the tape is a setup; if not, the train is good for nothing. */
         boolean readSetup(Train train) {
             train.clear();
             begin();
-            if (!takeWord("train") || !isInt(Train.LEAST_ROWS, Train.MOST_ROWS)) {
-                return false;
+            take("train");
+            train.rows = takeInt(Train.LEAST_ROWS, Train.MOST_ROWS);
+            take("first");
+            train.first = takeInt(0, train.rows);
+            pass(isSign(';'));
+            for (int t = 0; t < MOST_TRAVELLERS && kind != END && !wrong; t++) {
+                readTraveller(train);
             }
-            train.rows = takeInt();
-            if (!takeWord("first") || !isInt(0, train.rows)) {
-                return false;
-            }
-            train.first = takeInt();
-            if (!takeSign(';')) {
-                return false;
-            }
-            for (int t = 0; t < MOST_TRAVELLERS && kind != END; t++) {
-                if (!readTraveller(train)) {
-                    return false;
-                }
-            }
-            return kind == END;
+            return kind == END && !wrong;
         }
 
-        private boolean readTraveller(Train train) {
+        private void readTraveller(Train train) {
             who.clear();
-            if (!readSeatAndName(train) || !readTicketAndFamily() || !readLikes(train) || !readSweetsAndStop()) {
-                return false;
-            }
-            if (!isSign(';') || !train.allows(who.ticket, who.seat)) {
-                return false;
-            }
-            train.admit(who);
-            nextToken();
-            return true;
-        }
-
-        private boolean readSeatAndName(Train train) {
-            if (!takeWord("seat") || !isInt(0, train.seats() - 1) || !train.isFree(number)) {
-                return false;
-            }
-            who.seat = takeInt();
-            if (!isName()) {
-                return false;
-            }
-            who.name = packedName();
-            nextToken();
-            return true;
-        }
-
-        private boolean readTicketAndFamily() {
-            if (takeWord("ticket")) {
+            take("seat");
+            who.seat = takeFreeSeat(train);
+            who.name = takeName();
+            if (takeIfThere("ticket")) {
                 who.ticket = 1;
             }
-            if (takeWord("family")) {
-                if (!isInt(1, MOST_FAMILY)) {
-                    return false;
-                }
-                who.family = takeInt();
+            if (takeIfThere("family")) {
+                who.family = takeInt(1, MOST_FAMILY);
             }
-            return true;
-        }
-
-        private boolean readLikes(Train train) {
-            if (takeWord("window")) {
+            if (takeIfThere("window")) {
                 who.window = takeLike();
-                if (who.window == NO_LIKE) {
-                    return false;
-                }
             }
-            if (takeWord("ahead")) {
+            if (takeIfThere("ahead")) {
                 who.ahead = takeLike();
-                if (who.ahead == NO_LIKE) {
-                    return false;
-                }
             }
-            return !takeWord("row") || readRowAndPulls(train);
-        }
-
-        private boolean readRowAndPulls(Train train) {
-            if (!isInt(0, train.rows - 1)) {
-                return false;
+            if (takeIfThere("row")) {
+                who.row = takeInt(0, train.rows - 1);
+                who.pulls = takeInt(0, MOST_PULLS);
             }
-            who.row = takeInt();
-            if (!isInt(0, MOST_PULLS)) {
-                return false;
+            if (takeIfThere("sweets")) {
+                who.sweets = takeInt(0, MOST_SWEETS);
             }
-            who.pulls = takeInt();
-            return true;
-        }
-
-        private boolean readSweetsAndStop() {
-            if (takeWord("sweets")) {
-                if (!isInt(0, MOST_SWEETS)) {
-                    return false;
-                }
-                who.sweets = takeInt();
+            if (takeIfThere("stop")) {
+                who.stop = takeInt(1, MOST_STOP);
             }
-            if (takeWord("stop")) {
-                if (!isInt(1, MOST_STOP)) {
-                    return false;
-                }
-                who.stop = takeInt();
+            pass(isSign(';') && train.allows(who.ticket, who.seat));
+            if (!wrong) {
+                train.admit(who);
             }
-            return true;
         }
     }
 
@@ -1492,7 +1465,7 @@ public final class SeatSwap {
             putNumber(train.first);
             put(';');
             for (int t = 0; t < train.count; t++) {
-                putTraveller(train.travellers[t]);
+                putTraveller(train.traveller(t));
             }
         }
 
