@@ -1065,7 +1065,12 @@ public final class SeatSwap {
             for (int asker = 0; asker < count; asker++) {
                 // A swap for nothing is the same from both sides: the smaller one asks.
                 for (int other = asker + 1; other < count; other++) {
-                    int sum = swapReason(asker, other, 0) == 0 ? sumIfSwapped(asker, other) : greatest;
+                    if (swapReason(asker, other, 0) != 0) {
+                        continue;
+                    }
+                    exchangeSeats(asker, other);
+                    int sum = sumOfJoys();
+                    exchangeSeats(asker, other);
                     if (sum > greatest) {
                         greatest = sum;
                         bestAsker = asker;
