@@ -11,6 +11,7 @@ public final class ExchangesTest {
         promise10Move();
         promise10Refusals();
         promise11Ring();
+        promise11Rise();
         promise11Refusals();
         promise12Settle();
         promise12Choice();
@@ -154,6 +155,22 @@ public final class ExchangesTest {
         CHECK.due("11: the other way", y.ring(2, 1, 0), 0);
         CHECK.due("11: seats", y.of(0, 0) * 100 + y.of(1, 0) * 10 + y.of(2, 0), 125);
         CHECK.due("31: without a rise none counts", y.rings(), 0);
+    }
+
+    /** Joys before: 0, -5, 0; behind it: 5, -3, 7; or, the other way, 0, 7, -3. */
+    private static void promise11Rise() {
+        String text = "train 4 first 0;seat 0 a ahead +5;seat 4 b ahead -3 row 3 1;seat 1 c window +7;";
+        CHECK.due("11: all rises together", Texts.loaded(text).ring(0, 1, 2), 14);
+        CHECK.due("11: begun by the second", Texts.loaded(text).ring(1, 2, 0), 14);
+        CHECK.due("11: begun by the third", Texts.loaded(text).ring(2, 0, 1), 14);
+        CHECK.due("11: the other way", Texts.loaded(text).ring(0, 2, 1), 9);
+        CHECK.due("31: both", Texts.loaded(text).rings(), 2);
+        SeatSwap x = Texts.loaded("train 4 first 0;seat 0 a family 1;seat 1 b;seat 8 c family 1;seat 9 d family 1;");
+        CHECK.due("11: who leaves is missed", x.ring(0, 2, 1), -16);
+        CHECK.due("11: one goes to the family, one from it", x.ring(2, 1, 0), -16);
+        SeatSwap y = Texts.loaded("train 4 first 0;seat 0 a family 1;seat 1 b;seat 8 c;seat 9 d family 1;");
+        CHECK.due("11: to the family", y.ring(0, 2, 1), 4);
+        CHECK.due("17: two are glad of it", y.value(5), 10008);
     }
 
     private static void promise11Refusals() {

@@ -94,6 +94,7 @@ public final class LogAndTextsTest {
         CHECK.dueNumber("36: nobody", x.meanJoy(), 0.0);
         x = Texts.loaded("train 4 first 0;seat 0 a window +1;seat 1 b;seat 2 c;");
         CHECK.dueNumber("36: a third", x.meanJoy(), 1.0 / 3.0);
+        CHECK.dueNumber("36: one", Texts.loaded("train 4 first 0;seat 0 a window +7;").meanJoy(), 7.0);
         x = Texts.loaded("train 4 first 0;seat 0 a window -5;seat 1 b;");
         CHECK.dueNumber("36: below 0", x.meanJoy(), -2.5);
         x = Texts.loaded("train 4 first 0;seat 0 a window -5;seat 3 b window +5;");
@@ -139,6 +140,7 @@ public final class LogAndTextsTest {
             "train 4 first 0;seat 1 a window +3 ahead -4;seat 2 b window -3 ahead +4 sweets 9;");
         setup("train 4 first 0;seat 1 zzzzz ticket family 9 window +9 ahead +9 row 3 3 sweets 99 stop 1;",
             "train 4 first 0;seat 1 zzzzz ticket family 9 window +9 ahead +9 row 3 3 sweets 99 stop 1;");
+        setup("train 4 first 0;seat 1 a window +1 ahead -1;", "train 4 first 0;seat 1 a window +1 ahead -1;");
         setup("train 4 first 0;seat 1 a sweets 10 stop 10;", "train 4 first 0;seat 1 a sweets 10 stop 10;");
         SeatSwap x = Texts.loaded("train 4 first 0;seat 8 a stop 1;seat 9 b;");
         x.station(1);

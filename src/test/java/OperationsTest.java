@@ -8,6 +8,7 @@ public final class OperationsTest {
         promise13Full();
         promise14Keep();
         promise15Restore();
+        promise15Log();
         promise16Undo();
         promise16WhatDoesNotCount();
         CHECK.end();
@@ -114,6 +115,26 @@ public final class OperationsTest {
         CHECK.dueText("15: the slot is no part of the train", Texts.state(x), kept);
         CHECK.due("15: twice", x.restore(0), 3);
         CHECK.due("15: counts though it changes nothing", x.undo(), 7);
+    }
+
+    /** The log and the sweets that were paid are part of what was kept. */
+    private static void promise15Log() {
+        SeatSwap x = Texts.loaded("train 4 first 0;seat 1 a window +9 sweets 9;seat 0 b window +2;");
+        CHECK.due("9: swap", x.swap(0, 1, 4), 107);
+        CHECK.due("17: paid", x.value(11), 4);
+        x.keep(1);
+        CHECK.due("16: undo", x.undo(), 0);
+        CHECK.due("16: nothing is paid any more", x.value(11), 0);
+        CHECK.due("16: no entry", x.log(0, 0), SeatSwap.NOT_FOUND);
+        CHECK.due("7: set", x.set(0, 1, 3), 9);
+        CHECK.due("34: its entry", x.log(0, 0), 6);
+        CHECK.due("15: restore", x.restore(1), 2);
+        CHECK.dueText("15: the entry that was kept", x.log(0, 0) + " " + x.log(0, 1) + " " + x.log(0, 2), "1 1 4");
+        CHECK.due("15: paid", x.value(11), 4);
+        CHECK.due("15: like", x.of(0, 4), 9);
+        x.undo();
+        CHECK.dueText("16: the entry before", x.log(0, 0) + " " + x.log(0, 1) + " " + x.log(0, 2), "6 1 0");
+        CHECK.due("16: paid", x.value(11), 0);
     }
 
     private static final int OPERATIONS = 11;

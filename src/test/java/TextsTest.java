@@ -8,6 +8,7 @@ public final class TextsTest {
         promise3Truncate();
         promise4Load();
         promise4LoadReplacesEverything();
+        promise4LeavesNoTrace();
         promise4ErrorLeavesEverything();
         promise5ErrorPosition();
         promise5SemanticErrors();
@@ -132,6 +133,30 @@ public final class TextsTest {
         CHECK.due("4: table", x.table(0, 0), 1);
     }
 
+    /** What settling would bring, or another load, must not be seen in what is loaded. */
+    private static void promise4LeavesNoTrace() {
+        SeatSwap x = Texts.loaded("train 4 first 1;seat 5 a window +9 sweets 9;seat 4 b;seat 12 c stop 1;");
+        CHECK.due("9: swap", x.swap(0, 1, 3), 109);
+        CHECK.due("7: set", x.set(0, 0, 0), 18);
+        CHECK.due("11: ring", x.ring(0, 1, 2), 0);
+        CHECK.due("10: move", x.move(0, 9), 0);
+        CHECK.due("13: station", x.station(1), 1);
+        for (int what = 8; what <= 10; what++) {
+            CHECK.due("17: value " + what, x.value(what), 1);
+        }
+        x.ifSettled(0);
+        Texts.load(x, "train 9 first 7;seat 30 q family 5;seat 31 r family 5;;");
+        CHECK.due("4: load", Texts.load(x, "train 3 first 2;seat 8 z;"), 1);
+        int[] due = {3, 2, 0, 1, 11, 10000, 0, 0, 0, 0, 0, 0, 0, 2, 0, 0, 0};
+        for (int what = 0; what <= 16; what++) {
+            CHECK.due("4: value " + what, x.value(what), due[what]);
+        }
+        CHECK.due("22: family", x.family(5, 0), 0);
+        CHECK.due("10: move", x.move(0, 9), 0);
+        CHECK.due("34: the first entry", x.log(0, 2), 8);
+        CHECK.due("17: entries", x.value(15), 1);
+    }
+
     private static void promise4ErrorLeavesEverything() {
         SeatSwap x = Texts.loaded("train 4 first 0;seat 4 a family 1;seat 5 b family 1 stop 1;");
         x.move(0, 6);
@@ -173,6 +198,9 @@ public final class TextsTest {
         error("   \n", 4);
         error("first", 0);
         error(" trains 4", 1);
+        error("xrain 4 first 1;", 0);
+        error("traix 4 first 1;", 0);
+        error("train 4 firsts 1;", 8);
         error("train ", 6);
         error("train first", 6);
         error("train 4 4", 8);

@@ -10,6 +10,7 @@ public final class WhatThereIsTest {
 
     public static void main(String[] args) {
         promise17Value();
+        promise17WhoIsGone();
         promise18Of();
         promise18Joys();
         promise19Letter();
@@ -44,6 +45,26 @@ public final class WhatThereIsTest {
         SeatSwap worst = Texts.loaded("train 10 first 0;seat 36 a window -9 ahead -9 row 0 3;");
         CHECK.due("17: least joy", worst.value(5), 10000 - 45);
         CHECK.due("17: it grumbles", worst.value(6), 1);
+    }
+
+    /** Who got off is no part of any sum, nor is the one whose number nobody bears any more. */
+    private static void promise17WhoIsGone() {
+        SeatSwap x = Texts.loaded("train 4 first 0;seat 0 a family 1 window +3 sweets 5;"
+            + "seat 1 b family 1 ahead -9 row 3 3 sweets 7 stop 1;seat 3 c family 1 window -9 sweets 9 stop 1;");
+        CHECK.due("17: sum", x.value(5), 10000 + 11 - 1 - 1);
+        CHECK.due("13: station", x.station(1), 2);
+        int[] due = {4, 0, 1, 1, 15, 10003, 0, 5, 0, 0, 0, 0, 2, 2, 1, 2, 1};
+        for (int what = 0; what < due.length; what++) {
+            CHECK.due("17: value " + what, x.value(what), due[what]);
+        }
+        CHECK.dueText("21: table", x.table(0, 0) + " " + x.table(0, 1) + " " + x.table(0, 2) + " " + x.table(0, 3),
+            "1 0 1003 1");
+        CHECK.dueText("22: family", x.family(1, 0) + " " + x.family(1, 1) + " " + x.family(1, 2), "1 1 1003");
+        CHECK.due("23: place", x.ranked(0), 0);
+        CHECK.due("23: no more", x.ranked(1), SeatSwap.NOT_FOUND);
+        CHECK.due("20: free", x.at(1), SeatSwap.NOT_FOUND);
+        CHECK.due("33: nobody else", x.ifFirst(4), 1);
+        CHECK.due("36: mean", (long) x.meanJoy(), 3);
     }
 
     private static void promise18Of() {
@@ -137,6 +158,9 @@ public final class WhatThereIsTest {
         CHECK.due("21: one row alone", y.table(1, 0), 3);
         CHECK.due("21: sum", y.table(0, 2), 1016);
         CHECK.due("21: no table", y.table(2, 0), SeatSwap.INVALID);
+        SeatSwap one = Texts.loaded("train 3 first 0;seat 0 a family 1 window -1;seat 8 b family 2;");
+        CHECK.due("21: the first family", one.table(0, 3), 1);
+        CHECK.due("21: the first traveller grumbles", one.table(0, 1), 1);
         SeatSwap z = Texts.loaded("train 3 first 0;seat 0 a;seat 8 b;");
         CHECK.due("21: no family", z.table(0, 3), 0);
     }

@@ -127,6 +127,9 @@ public final class WhatWouldBeTest {
         CHECK.due("29: joys below 0", low.bestSeat(0), 5);
         SeatSwap grumble = Texts.loaded("train 2 first 1;seat 4 a window -3 ahead -3;seat 5 b;seat 6 c;");
         CHECK.due("29: all of them below 0", grumble.bestSeat(0), 7);
+        CHECK.due("29: the first seat", Texts.loaded("train 2 first 0;seat 1 a window +1;").bestSeat(0), 0);
+        CHECK.due("29: the last seat", Texts.loaded("train 2 first 0;seat 1 a window +1 row 1 1;seat 4 b;").bestSeat(0),
+            7);
     }
 
     private static void promise30Partner() {
@@ -143,6 +146,9 @@ public final class WhatWouldBeTest {
         CHECK.due("30: for nothing alone", y.partner(0), SeatSwap.NOT_FOUND);
         SeatSwap z = Texts.loaded("train 4 first 0;seat 4 b window -1;seat 5 a;");
         CHECK.due("30: one more", z.partner(0), 1);
+        CHECK.due("30: the other has none", z.partner(1), SeatSwap.NOT_FOUND);
+        SeatSwap first = Texts.loaded("train 4 first 0;seat 4 b;seat 5 a window +1;");
+        CHECK.due("30: the first traveller", first.partner(1), 0);
     }
 
     private static void promise31Rings() {
@@ -192,6 +198,9 @@ public final class WhatWouldBeTest {
         CHECK.due("33: above", x.ifFirst(5), SeatSwap.INVALID);
         CHECK.due("33: far above", x.ifFirst(MAX), SeatSwap.INVALID);
         CHECK.due("33: nothing changes", x.value(1), 1);
+        SeatSwap y = Texts.loaded("train 4 first 0;seat 0 a;seat 15 b;");
+        CHECK.due("33: the first traveller", y.ifFirst(1), 1);
+        CHECK.due("33: the last traveller too", y.ifFirst(4), 2);
     }
 
     private static void nothingChanges() {
