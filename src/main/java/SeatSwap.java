@@ -30,8 +30,8 @@ public final class SeatSwap {
     private int errorAt;
 
     public SeatSwap() {
-        tape = new Tape();
-        reader = new SetupReader(tape);
+        reader = new SetupReader();
+        tape = reader.tape;
         writer = new SetupWriter();
         train = new Train();
         draft = new Train();
@@ -566,7 +566,8 @@ public final class SeatSwap {
         static final int SEATS_IN_ROW = 4;
         static final int SEATS_AT_TABLE = 8;
         static final int MOST_TABLES = 5;
-        static final int FAMILIES = MOST_FAMILY + 1;
+        /** None (0), and 1 to 9. */
+        static final int FAMILIES = 10;
         static final int PLAN_LINE = 7;
 
         final Traveller[] travellers;
@@ -1262,8 +1263,8 @@ public final class SeatSwap {
         int kind;
         boolean wrong;
 
-        SetupReader(Tape tape) {
-            this.tape = tape;
+        SetupReader() {
+            tape = new Tape();
             who = new Traveller();
         }
 

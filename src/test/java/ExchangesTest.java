@@ -16,6 +16,7 @@ public final class ExchangesTest {
         promise12Settle();
         promise12Choice();
         promise12Others();
+        promise12Long();
         CHECK.end();
     }
 
@@ -232,6 +233,28 @@ public final class ExchangesTest {
         CHECK.due("12: no ticket", w.settle(), SeatSwap.NOT_FOUND);
         SeatSwap v = Texts.loaded("train 4 first 0;seat 1 a window +9 sweets 9;seat 0 b window +1;");
         CHECK.due("12: none is paid", v.settle(), SeatSwap.NOT_FOUND);
+    }
+
+    /** As long a settling as a search among many trains found; the model of ModelTest says the same. */
+    private static void promise12Long() {
+        SeatSwap x = Texts.loaded("train 10 first 0;seat 2 a family 2 window +3 ahead -8 row 0 3;"
+            + "seat 28 a family 1 window +9 ahead -1 row 3 1;seat 17 a window +9 ahead -7 row 3 0;"
+            + "seat 4 a family 2 window -9 row 9 2;seat 0 a ahead +5 row 4 0;seat 3 a family 2 window +5 row 5 3;"
+            + "seat 14 a family 2 ahead -1 row 1 0;seat 15 a family 1 window -9 ahead -1 row 0 1;"
+            + "seat 39 a family 1 window -8 ahead -5 row 5 3;seat 38 a family 3 window +4 ahead -9 row 7 2;"
+            + "seat 23 a family 2 window +5 row 8 2;seat 35 a family 1 window -3 ahead +6 row 2 3;"
+            + "seat 27 a family 2 window +8 ahead +1 row 7 1;seat 1 a family 1 window -3 ahead +2 row 2 2;"
+            + "seat 32 a family 1 window +8 ahead +9 row 3 3;seat 25 a window +2 ahead -1 row 4 1;"
+            + "seat 21 a window -3 ahead -9 row 4 1;seat 18 a family 2 window +6 ahead +4 row 0 0;"
+            + "seat 11 a family 2 window -2 ahead +3 row 0 2;seat 8 a family 2 window -2 ahead +2 row 4 2;");
+        int before = x.value(5);
+        CHECK.due("32: swaps", x.ifSettled(0), 36);
+        int then = x.ifSettled(1);
+        CHECK.due("12: settle", x.settle(), 36);
+        CHECK.due("12: sum", x.value(5), then);
+        CHECK.due("12: swaps", x.value(8), 36);
+        CHECK.due("12: rise", x.log(0, 2), then - before);
+        CHECK.due("12: settled", x.settle(), SeatSwap.NOT_FOUND);
     }
 
     /** The sum of all JOYs counts, with those of the family whom one of the two comes to. */
