@@ -29,6 +29,16 @@ final class Check {
         }
     }
 
+    int asked() {
+        return right + wrong;
+    }
+
+    /** Counts what another check found, too. */
+    void add(Check other) {
+        right += other.right;
+        wrong += other.wrong;
+    }
+
     /** Ends the test: with the exit code 1 if an answer was wrong or none was asked for. */
     void end() {
         System.out.println(test + ": " + right + " right, " + wrong + " wrong");
