@@ -47,7 +47,8 @@ final class Edges {
 
     /** Numbers just outside of a range, and such as would be in it if their upper bits were lost. */
     static int[] outside(int least, int most) {
-        return new int[] {Integer.MIN_VALUE, Integer.MIN_VALUE + 1, Integer.MIN_VALUE + most, least - 65536, least - 256,
+        return new int[] {Integer.MIN_VALUE, Integer.MIN_VALUE + 1, Integer.MIN_VALUE + most, least - 65536,
+            least - 256,
             least - 10, least - 2, least - 1, most + 1, most + 2, most + 10, most + 256, most + 65536,
             Integer.MAX_VALUE - 1, Integer.MAX_VALUE};
     }

@@ -41,8 +41,8 @@ public final class EdgesOfAnswersTest {
         e.says("0 ROWS, 1 FIRST, 2 TIME, 3 the number of travellers, 4 of SEATs that are free,", c -> {
             SeatSwap x = new SeatSwap();
             c.dueText("at first", values(x, 0, 4), "4 1 0 0 16 ");
-            SeatSwap full = Texts.loaded("train 2 first 2;seat 0 a ticket;seat 1 a ticket;seat 2 a ticket;seat 3 a ticket;"
-                + "seat 4 a ticket;seat 5 a ticket;seat 6 a ticket;seat 7 a ticket;");
+            SeatSwap full = Texts.loaded("train 2 first 2;seat 0 a ticket;seat 1 a ticket;seat 2 a ticket;"
+                + "seat 3 a ticket;seat 4 a ticket;seat 5 a ticket;seat 6 a ticket;seat 7 a ticket;");
             c.dueText("no seat is free", values(full, 0, 4), "2 2 0 8 0 ");
             SeatSwap most = EdgesOfExchangesTest.all("stop 1;");
             c.dueText("most", values(most, 0, 4), "10 0 0 20 20 ");
@@ -69,7 +69,8 @@ public final class EdgesOfAnswersTest {
             SeatSwap z = Texts.loaded("train 4 first 0;seat 0 a window -1;seat 3 b window +1;seat 1 d;");
             c.dueText("0 does not grumble", values(z, 5, 7), "10000 1 0 ");
         });
-        e.says("8 swaps so far (of settling, too), 9 moves so far, 10 rings so far, 11 SWEETS that were paid so far,", c -> {
+        e.says("8 swaps so far (of settling, too), 9 moves so far, 10 rings so far, 11 SWEETS that were paid so far,",
+            c -> {
             SeatSwap x = Texts.loaded("train 4 first 0;seat 1 a window +9 sweets 99;seat 0 b;seat 2 d;");
             c.dueText("none", values(x, 8, 11), "0 0 0 0 ");
             x.swap(0, 1, 9);
@@ -90,7 +91,8 @@ public final class EdgesOfAnswersTest {
         e.says("12 travellers who got off so far, 13 TABLEs, 14 different FAMILYs (not 0),", c -> {
             StringBuilder text = new StringBuilder("train 9 first 0;");
             for (int family = 0; family <= 9; family++) {
-                text.append("seat ").append(family).append(" a").append(family > 0 ? " family " + family : "").append(" stop ")
+                text.append("seat ").append(family).append(" a").append(family > 0 ? " family " + family
+                    : "").append(" stop ")
                     .append(family + 1).append(";");
                 text.append("seat ").append(20 + family).append(" a family 5 stop ").append(family + 1).append(";");
             }
@@ -134,8 +136,8 @@ public final class EdgesOfAnswersTest {
     private static void of(Edges e) {
         e.at("promise 18");
         e.plain("Returns a number of a traveller.", "a traveller");
-        e.says("0 SEAT, 1 TICKET, 2 FAMILY, 3 the like of the window plus 9, 4 of looking forward plus 9, 5 ROW, 6 PULLS, "
-            + "7 SWEETS, 8 STOP, 9 JOY plus 100,", c -> {
+        e.says("0 SEAT, 1 TICKET, 2 FAMILY, 3 the like of the window plus 9, 4 of looking forward plus 9, 5 ROW, 6 "
+            + "PULLS, 7 SWEETS, 8 STOP, 9 JOY plus 100,", c -> {
             SeatSwap x = Texts.loaded("train 10 first 0;seat 0 a window -9 ahead -9 stop 1;"
                 + "seat 39 b ticket family 9 window +9 ahead +9 row 9 3 sweets 99;"
                 + "seat 36 d window -9 ahead -9 row 0 3;");
@@ -208,8 +210,8 @@ public final class EdgesOfAnswersTest {
                 c.due("letter " + i, x.letter(0, i), due[i]);
             }
         });
-        e.says("Returns 1 for a to 26 for z; INVALID for an invalid argument or a negative i; NOT_FOUND if the name is not so "
-            + "long.", c -> {
+        e.says("Returns 1 for a to 26 for z; INVALID for an invalid argument or a negative i; NOT_FOUND if the name "
+            + "is not so long.", c -> {
             for (int letter = 1; letter <= 26; letter++) {
                 for (int length = 1; length <= 5; length++) {
                     SeatSwap x = new SeatSwap();
@@ -283,7 +285,8 @@ public final class EdgesOfAnswersTest {
                 c.dueText("others", x.table(0, 0) + " " + x.table(0, 1) + " " + x.table(0, 2), "1 0 1000");
             }
             SeatSwap x = Texts.loaded("train 2 first 0;seat 0 a window -1;seat 1 b;seat 7 d window +1;");
-            c.dueText("a joy of 0 is no grumble", x.table(0, 0) + " " + x.table(0, 1) + " " + x.table(0, 2), "3 1 1000");
+            c.dueText("a joy of 0 is no grumble", x.table(0, 0) + " " + x.table(0, 1) + " " + x.table(0, 2),
+                "3 1 1000");
             SeatSwap gone = Texts.loaded("train 2 first 0;seat 0 a window +1;seat 3 b window -9 stop 1;");
             gone.station(1);
             c.dueText("who is gone counts no more", gone.table(0, 0) + " " + gone.table(0, 1) + " " + gone.table(0, 2),
@@ -330,22 +333,26 @@ public final class EdgesOfAnswersTest {
             }
             c.due("none is no family", x.family(0, 0), SeatSwap.INVALID);
         });
-        e.says("0 how many members are in the train, 1 at how many TABLEs they are, 2 the sum of their JOYs plus 1000", c -> {
+        e.says("0 how many members are in the train, 1 at how many TABLEs they are, 2 the sum of their JOYs plus 1000",
+            c -> {
             c.dueText("no members", families(new SeatSwap(), 1), "0 0 1000");
-            c.dueText("one family", families(EdgesOfExchangesTest.all("family 9;"), 9), "20 3 " + (1000 + 16 * 28 + 4 * 12));
+            c.dueText("one family", families(EdgesOfExchangesTest.all("family 9;"), 9), "20 3 " + (1000 + 16 * 28
+                + 4 * 12));
             StringBuilder text = new StringBuilder("train 10 first 0;");
             for (int i = 0; i < 5; i++) {
                 text.append("seat ").append(8 * i + 7).append(" a family 1 window -9 ahead -9 row 0 3;");
                 int joys = -5 * 18 - 3 * (1 + 3 + 5 + 7 + 9);
                 int so = -18 * (i + 1) - 3 * (i + 1) * (i + 1);
-                c.dueText("tables", families(Texts.loaded(text.toString()), 1), i + 1 + " " + (i + 1) + " " + (1000 + so));
+                c.dueText("tables", families(Texts.loaded(text.toString()), 1), i + 1 + " " + (i + 1) + " " + (1000
+                    + so));
                 c.that("least", i < 4 || joys == so);
             }
             SeatSwap x = Texts.loaded(text + "seat 0 b family 2;seat 1 d;");
             c.dueText("another family", families(x, 2), "1 1 1000");
             x.move(5, 38);
             c.dueText("it moves", families(x, 2), "1 1 1000");
-            SeatSwap gone = Texts.loaded("train 2 first 0;seat 0 a family 3 window +1;seat 3 b family 3 window -9 stop 1;");
+            SeatSwap gone = Texts.loaded("train 2 first 0;seat 0 a family 3 window +1;"
+                + "seat 3 b family 3 window -9 stop 1;");
             c.dueText("two", families(gone, 3), "2 1 1000");
             gone.station(1);
             c.dueText("who is gone counts no more", families(gone, 3), "1 1 1001");
@@ -403,7 +410,8 @@ public final class EdgesOfAnswersTest {
     private static void why(Edges e) {
         e.at("promise 24");
         e.plain("Tells why a swap would be refused.", "as for swap()");
-        e.says("Returns the reason, 0 if it would not be; INVALID for an invalid argument or twice the same traveller.", c -> {
+        e.says("Returns the reason, 0 if it would not be; INVALID for an invalid argument or twice the same traveller.",
+            c -> {
             SeatSwap x = Texts.loaded("train 4 first 1;seat 0 a ticket window -1 sweets 9;seat 4 b window +4;"
                 + "seat 5 d window +9 sweets 5;seat 3 e ticket;");
             for (int a = 0; a < 4; a++) {
@@ -437,7 +445,8 @@ public final class EdgesOfAnswersTest {
         e.at("promise 25");
         e.plain("Tells why a move would be refused.", "as for move()");
         e.says("Returns the reason, 0 if it would not be; INVALID for an invalid argument.", c -> {
-            SeatSwap x = Texts.loaded("train 4 first 1;seat 1 a ticket window -1;seat 4 b window +4;seat 5 d ahead +1;");
+            SeatSwap x = Texts.loaded("train 4 first 1;seat 1 a ticket window -1;seat 4 b window +4;"
+                + "seat 5 d ahead +1;");
             for (int t = 0; t < 3; t++) {
                 for (int seat = 0; seat < 16; seat++) {
                     int reason = x.whyMove(t, seat);
@@ -474,8 +483,8 @@ public final class EdgesOfAnswersTest {
                 c.due("seat " + seat, y.joyAt(0, seat), SeatSwap.INVALID);
             }
         });
-        e.says("Returns the JOY, plus 100, if the traveller had this SEAT, and all others had theirs; INVALID for an invalid "
-            + "argument.", c -> {
+        e.says("Returns the JOY, plus 100, if the traveller had this SEAT, and all others had theirs; INVALID for an "
+            + "invalid argument.", c -> {
             SeatSwap x = Texts.loaded("train 4 first 0;seat 0 a family 1;seat 1 b family 1;seat 8 d family 1;");
             c.due("its own seat, without itself", x.joyAt(0, 0), 104);
             c.due("the seat of one of its family", x.joyAt(0, 1), 104);
@@ -498,10 +507,10 @@ public final class EdgesOfAnswersTest {
     private static void ifSwapped(Edges e) {
         e.at("promise 27");
         e.plain("Tells what a swap would bring.", "as for swap()");
-        e.says("0 by how much the JOY of the asker would rise, plus 100, 1 that of the other one, plus 100, 2 the sum of all "
-            + "JOYs, plus 1000", c -> {
-            SeatSwap x = Texts.loaded("train 10 first 0;seat 37 a window +9 ahead -9 row 0 3;seat 0 b window +9 ahead -9 row 0 3;"
-                + "seat 8 d family 1;seat 9 e family 1;seat 15 f;");
+        e.says("0 by how much the JOY of the asker would rise, plus 100, 1 that of the other one, plus 100, 2 the sum "
+            + "of all JOYs, plus 1000", c -> {
+            SeatSwap x = Texts.loaded("train 10 first 0;seat 37 a window +9 ahead -9 row 0 3;"
+                + "seat 0 b window +9 ahead -9 row 0 3;seat 8 d family 1;seat 9 e family 1;seat 15 f;");
             c.dueText("most and least", swapped(x, 0, 1), "145 55 981");
             c.dueText("asked by the other one", swapped(x, 1, 0), "55 145 981");
             c.dueText("a family parts", swapped(x, 2, 1), "96 94 967");
@@ -546,8 +555,8 @@ public final class EdgesOfAnswersTest {
                 c.due("another one", x.leastPrice(t, 19 - t), 0);
             }
         });
-        e.says("Returns the least number of SWEETS, 0 to 9, for which swap() would not be refused; INVALID for an invalid "
-            + "argument or twice the same traveller; NOT_FOUND if there is none.", c -> {
+        e.says("Returns the least number of SWEETS, 0 to 9, for which swap() would not be refused; INVALID for an "
+            + "invalid argument or twice the same traveller; NOT_FOUND if there is none.", c -> {
             for (int loss = 0; loss <= 9; loss++) {
                 for (int rise = -1; rise <= 9; rise += 2) {
                     for (int sweets = 0; sweets <= 9; sweets += 3) {
@@ -558,9 +567,11 @@ public final class EdgesOfAnswersTest {
                     }
                 }
             }
-            SeatSwap ten = Texts.loaded("train 4 first 0;seat 1 a window +9 ahead +9 sweets 99;seat 4 b window +9 ahead +1;");
+            SeatSwap ten = Texts.loaded("train 4 first 0;seat 1 a window +9 ahead +9 sweets 99;"
+                + "seat 4 b window +9 ahead +1;");
             c.due("ten would be needed", ten.leastPrice(0, 1), SeatSwap.NOT_FOUND);
-            SeatSwap nine = Texts.loaded("train 4 first 0;seat 1 a window +9 ahead +9 sweets 9;seat 4 b window +8 ahead +1;");
+            SeatSwap nine = Texts.loaded("train 4 first 0;seat 1 a window +9 ahead +9 sweets 9;"
+                + "seat 4 b window +8 ahead +1;");
             c.due("nine", nine.leastPrice(0, 1), 9);
             c.due("nine", nine.swap(0, 1, 9), 109);
             c.due("a ticket", Texts.loaded("train 4 first 1;seat 4 a sweets 9;seat 0 b ticket;").leastPrice(0, 1),
@@ -575,10 +586,10 @@ public final class EdgesOfAnswersTest {
     private static void bestSeat(Edges e) {
         e.at("promise 29");
         e.plain("Finds the best free SEAT.", "a traveller");
-        e.says("Returns the free SEAT for which move() would not be refused with the greatest JOY there, of several the "
-            + "smallest one; INVALID for an invalid argument; NOT_FOUND if there is none.", c -> {
-            SeatSwap full = Texts.loaded("train 2 first 0;seat 0 a;seat 1 a;seat 2 a;seat 3 a;seat 4 a;seat 5 a;seat 6 a;"
-                + "seat 7 a;");
+        e.says("Returns the free SEAT for which move() would not be refused with the greatest JOY there, of several "
+            + "the smallest one; INVALID for an invalid argument; NOT_FOUND if there is none.", c -> {
+            SeatSwap full = Texts.loaded("train 2 first 0;seat 0 a;seat 1 a;seat 2 a;seat 3 a;seat 4 a;seat 5 a;"
+                + "seat 6 a;seat 7 a;");
             c.due("no seat is free", full.bestSeat(0), SeatSwap.NOT_FOUND);
             SeatSwap x = Texts.loaded("train 10 first 0;seat 0 a;");
             c.due("the smallest of all", x.bestSeat(0), 1);
@@ -611,16 +622,17 @@ public final class EdgesOfAnswersTest {
     private static void partner(Edges e) {
         e.at("promise 30");
         e.plain("Finds a partner.", "a traveller");
-        e.says("Returns the other traveller with whom a swap for 0 SWEETS would not be refused, and by which the JOY of the "
-            + "asker rises most (by 1 at least), of several the smallest one; INVALID for an invalid argument; NOT_FOUND if "
-            + "there is none.", c -> {
+        e.says("Returns the other traveller with whom a swap for 0 SWEETS would not be refused, and by which the JOY "
+            + "of the asker rises most (by 1 at least), of several the smallest one; INVALID for an invalid argument; "
+            + "NOT_FOUND if there is none.", c -> {
             for (int like = -1; like <= 1; like++) {
-                SeatSwap x = Texts.loaded("train 4 first 0;seat 1 a window " + EdgesOfTermsTest.signed(like) + ";seat 0 b;");
+                SeatSwap x = Texts.loaded("train 4 first 0;seat 1 a window " + EdgesOfTermsTest.signed(like)
+                    + ";seat 0 b;");
                 c.due("rises by " + like, x.partner(0), like > 0 ? 1 : SeatSwap.NOT_FOUND);
                 c.due("the other one never", x.partner(1), SeatSwap.NOT_FOUND);
             }
-            SeatSwap x = Texts.loaded("train 4 first 0;seat 0 d;seat 3 e;seat 1 a window +2 ahead +1;seat 4 f;seat 7 g;"
-                + "seat 15 h window +1;");
+            SeatSwap x = Texts.loaded("train 4 first 0;seat 0 d;seat 3 e;seat 1 a window +2 ahead +1;seat 4 f;"
+                + "seat 7 g;seat 15 h window +1;");
             c.due("most, the smallest of several", x.partner(2), 3);
             x.set(2, 1, 0);
             c.due("all windows are the same", x.partner(2), 0);
@@ -642,8 +654,8 @@ public final class EdgesOfAnswersTest {
     private static void rings(Edges e) {
         e.at("promise 31");
         e.plain("Counts rings.");
-        e.says("Returns how many ordered choices of three travellers with the smallest one first form a ring that would not be "
-            + "refused,", c -> {
+        e.says("Returns how many ordered choices of three travellers with the smallest one first form a ring that "
+            + "would not be refused,", c -> {
             c.due("nobody", new SeatSwap().rings(), 0);
             c.due("one", Texts.loaded("train 4 first 0;seat 1 a window +9;").rings(), 0);
             c.due("two", Texts.loaded("train 4 first 0;seat 1 a window +9;seat 0 b;").rings(), 0);
@@ -668,7 +680,8 @@ public final class EdgesOfAnswersTest {
             SeatSwap y = EdgesOfExchangesTest.all("window -1;");
             // Those in the ten windows and those within exchange: nobody of them may come to a window.
             c.due("nobody can", y.rings(), 0);
-            SeatSwap z = Texts.loaded("train 4 first 0;seat 1 a family 1;seat 9 b;seat 10 d;seat 11 e family 1 window +9;");
+            SeatSwap z = Texts.loaded("train 4 first 0;seat 1 a family 1;seat 9 b;seat 10 d;"
+                + "seat 11 e family 1 window +9;");
             c.due("the joy of others does not count", z.rings(), 4 - 2);
         });
     }
@@ -676,10 +689,12 @@ public final class EdgesOfAnswersTest {
     private static void ifSettledAndIfFirst(Edges e) {
         e.at("promise 32");
         e.plain("Tells what settling would bring.");
-        e.says("0 how many swaps would be done, 1 the sum of all JOYs then, plus 10000, 2 how many would GRUMBLE then", c -> {
+        e.says("0 how many swaps would be done, 1 the sum of all JOYs then, plus 10000, 2 how many would GRUMBLE then",
+            c -> {
             SeatSwap none = new SeatSwap();
             c.dueText("nobody", none.ifSettled(0) + " " + none.ifSettled(1) + " " + none.ifSettled(2), "0 10000 0");
-            SeatSwap x = Texts.loaded("train 4 first 0;seat 1 a window +9;seat 0 b window -1;seat 5 d row 3 1;seat 2 e;");
+            SeatSwap x = Texts.loaded("train 4 first 0;seat 1 a window +9;seat 0 b window -1;seat 5 d row 3 1;"
+                + "seat 2 e;");
             c.dueText("one swap", x.ifSettled(0) + " " + x.ifSettled(1) + " " + x.ifSettled(2), "1 10007 1");
             c.due("settle", x.settle(), 1);
             c.dueText("none", x.ifSettled(0) + " " + x.ifSettled(1) + " " + x.ifSettled(2), "0 10007 1");
@@ -706,7 +721,8 @@ public final class EdgesOfAnswersTest {
                 }
             }
         });
-        e.says("Returns how many travellers sit where their TICKET would not allow it; INVALID for an invalid argument.", c -> {
+        e.says("Returns how many travellers sit where their TICKET would not allow it; INVALID for an invalid "
+            + "argument.", c -> {
             SeatSwap x = EdgesOfExchangesTest.all(";");
             for (int first = 0; first <= 10; first++) {
                 c.due("first " + first, x.ifFirst(first), Math.min(20, 4 * first));

@@ -29,7 +29,8 @@ public final class EdgesOfCallsTest {
 
     private static void calls(Edges e) {
         e.at("term 7");
-        e.says("Arguments that are travellers, SEATs or TABLEs are valid if there are such ones; an index from 0.", c -> {
+        e.says("Arguments that are travellers, SEATs or TABLEs are valid if there are such ones; an index from 0.",
+            c -> {
             SeatSwap x = six();
             there(c, x, 6, 16, 2);
             x.station(1);
@@ -47,8 +48,8 @@ public final class EdgesOfCallsTest {
             y.restore(0);
             there(c, y, 6, 16, 2);
         });
-        e.says("A call with an invalid argument returns INVALID and changes nothing; this is checked before any other special "
-            + "result.", EdgesOfCallsTest::invalidArguments);
+        e.says("A call with an invalid argument returns INVALID and changes nothing; this is checked before any other "
+            + "special result.", EdgesOfCallsTest::invalidArguments);
         e.says("Further special results are checked in the order in which the call lists them.", c -> {
             SeatSwap x = EdgesOfExchangesTest.all(";");
             Texts.put(x, "no name");
@@ -174,8 +175,8 @@ public final class EdgesOfCallsTest {
     }
 
     private static void operations(Edges e) {
-        e.says("Operations are the calls of come(), swap(), move(), ring(), settle(), set(), first(), station() and restore() "
-            + "that return 0 or more.", c -> {
+        e.says("Operations are the calls of come(), swap(), move(), ring(), settle(), set(), first(), station() and "
+            + "restore() that return 0 or more.", c -> {
             SeatSwap x = six();
             Texts.put(x, "a");
             // Each of these returns 0 where it can.
@@ -217,8 +218,8 @@ public final class EdgesOfCallsTest {
             c.due("settle", z.settle(), 1);
             c.due("operations", z.value(16), 6);
         });
-        e.says("The latest 8 of them can be undone (of more than 8 the oldest is forgotten for good; one that was undone does "
-            + "not count any more);", c -> {
+        e.says("The latest 8 of them can be undone (of more than 8 the oldest is forgotten for good; one that was "
+            + "undone does not count any more);", c -> {
             for (int done = 0; done <= 20; done++) {
                 SeatSwap x = Texts.loaded("train 10 first 0;seat 0 a;");
                 for (int i = 1; i <= done; i++) {
@@ -272,8 +273,8 @@ public final class EdgesOfCallsTest {
             y.undo();
             c.due("the name is not put back", y.truncate(0), 0);
         });
-        e.says("What operations change is travellers, FIRST, TIME, the counts and the log (restore() has no entry of its own); "
-            + "ROWS stay.", c -> {
+        e.says("What operations change is travellers, FIRST, TIME, the counts and the log (restore() has no entry of "
+            + "its own); ROWS stay.", c -> {
             SeatSwap x = EdgesOfTextsTest.busy();
             String kept = Texts.state(x);
             int[] counts = new int[6];
@@ -317,7 +318,8 @@ public final class EdgesOfCallsTest {
     }
 
     private static void constants(Edges e) {
-        e.says("The constants: : Result of a call with an invalid argument.", c -> c.due("INVALID", SeatSwap.INVALID, -1));
+        e.says("The constants: : Result of a call with an invalid argument.", c -> c.due("INVALID", SeatSwap.INVALID,
+            -1));
         e.says(": Result of a call that finds nothing, or would change nothing.", c -> {
             c.due("NOT_FOUND", SeatSwap.NOT_FOUND, -2);
             SeatSwap x = Texts.loaded("train 4 first 0;seat 0 a;");
@@ -360,7 +362,8 @@ public final class EdgesOfCallsTest {
 
     private static void come(Edges e) {
         e.at("promise 6");
-        e.says("Lets a traveller come, behind the others, whose name is the whole tape; the tape is empty afterwards.", c -> {
+        e.says("Lets a traveller come, behind the others, whose name is the whole tape; the tape is empty afterwards.",
+            c -> {
             SeatSwap x = new SeatSwap();
             c.due("empty tape", x.come(4, 0, 0, 0, 1), SeatSwap.INVALID);
             c.due("a", Texts.come(x, "a", 4, 0, 0, 0, 1), 0);
@@ -395,7 +398,8 @@ public final class EdgesOfCallsTest {
         e.says(": FAMILY, 0 to 9", c -> arguments(c, 2, 0, 9));
         e.says(": SWEETS, 0 to 99", c -> arguments(c, 3, 0, 99));
         e.says(": STOP, 1 to 99", c -> arguments(c, 4, 1, 99));
-        e.says("Returns the number; INVALID for an invalid argument, or if the tape is no NAME (the tape stays);", c -> {
+        e.says("Returns the number; INVALID for an invalid argument, or if the tape is no NAME (the tape stays);",
+            c -> {
             SeatSwap x = new SeatSwap();
             Texts.put(x, "abcdef");
             c.due("six letters", x.come(4, 0, 0, 0, 1), SeatSwap.INVALID);
@@ -500,7 +504,8 @@ public final class EdgesOfCallsTest {
         e.says("NOT_FOUND if it is so already;", c -> {
             for (int like = -9; like <= 9; like++) {
                 String sign = EdgesOfTermsTest.signed(like);
-                SeatSwap x = Texts.loaded("train 4 first 1;seat 3 a ticket window " + sign + " ahead " + sign + " row 3 3;");
+                SeatSwap x = Texts.loaded("train 4 first 1;seat 3 a ticket window " + sign + " ahead " + sign
+                    + " row 3 3;");
                 c.due("window", x.set(0, 0, like), SeatSwap.NOT_FOUND);
                 c.due("ahead", x.set(0, 1, like), SeatSwap.NOT_FOUND);
                 c.due("row", x.set(0, 2, 3), SeatSwap.NOT_FOUND);
@@ -579,13 +584,14 @@ public final class EdgesOfCallsTest {
             }
             c.due("nothing changed", x.value(16), 0);
         });
-        e.says("Returns by how much the sum of the JOYs of both rises, plus 100; INVALID for an invalid argument or twice the "
-            + "same traveller; or the refusal.", c -> {
-            c.due("none", Texts.loaded("train 4 first 0;seat 1 a window +9 sweets 9;seat 0 b window +9;").swap(0, 1, 9), 100);
-            c.due("most", Texts.loaded("train 10 first 0;seat 37 a window +9 ahead -9 row 0 3;seat 0 b window -9 ahead +9 "
-                + "row 9 3;").swap(0, 1, 0), 100 + 2 * (9 + 9 + 27));
-            SeatSwap x = Texts.loaded("train 4 first 0;seat 1 a sweets 9;seat 8 b family 1;seat 0 d family 1;seat 9 e family 1;"
-                + "seat 10 f;");
+        e.says("Returns by how much the sum of the JOYs of both rises, plus 100; INVALID for an invalid argument or "
+            + "twice the same traveller; or the refusal.", c -> {
+            c.due("none", Texts.loaded("train 4 first 0;seat 1 a window +9 sweets 9;seat 0 b window +9;").swap(0, 1, 9),
+                100);
+            c.due("most", Texts.loaded("train 10 first 0;seat 37 a window +9 ahead -9 row 0 3;"
+                + "seat 0 b window -9 ahead +9 row 9 3;").swap(0, 1, 0), 100 + 2 * (9 + 9 + 27));
+            SeatSwap x = Texts.loaded("train 4 first 0;seat 1 a sweets 9;seat 8 b family 1;seat 0 d family 1;"
+                + "seat 9 e family 1;seat 10 f;");
             c.due("of both, not of all", x.swap(4, 2, 0), 108);
             c.due("twice", x.swap(1, 1, 0), SeatSwap.INVALID);
             c.due("invalid", x.swap(5, 1, 0), SeatSwap.INVALID);
@@ -606,7 +612,8 @@ public final class EdgesOfCallsTest {
             c.due("most", x.move(0, 0), 45);
             c.due("back", x.move(0, 37), -16);
             c.due("none", x.move(0, 3), 0);
-            SeatSwap y = Texts.loaded("train 4 first 0;seat 0 a family 1;seat 8 b family 1;seat 9 d family 1;seat 10 e family 1;");
+            SeatSwap y = Texts.loaded("train 4 first 0;seat 0 a family 1;seat 8 b family 1;seat 9 d family 1;"
+                + "seat 10 e family 1;");
             c.due("its own joy alone", y.move(0, 11), 12);
             c.due("sum", y.value(5), 10048);
             for (int t : Edges.outside(0, 3)) {
@@ -630,13 +637,14 @@ public final class EdgesOfCallsTest {
             c.due("0 and 0", x.ring(0, 1, 0), SeatSwap.INVALID);
             c.due("5 and 5", x.ring(5, 4, 5), SeatSwap.INVALID);
         });
-        e.says("Returns by how much the sum of the JOYs of the three rises; INVALID for an invalid argument or if two are the "
-            + "same; or the refusal.", c -> {
-            SeatSwap x = Texts.loaded("train 10 first 0;seat 37 a window +9 ahead -9 row 0 3;seat 0 b window -9 ahead +9 "
-                + "row 9 3;seat 1 d ahead +9 row 9 3;");
+        e.says("Returns by how much the sum of the JOYs of the three rises; INVALID for an invalid argument or if two "
+            + "are the same; or the refusal.", c -> {
+            SeatSwap x = Texts.loaded("train 10 first 0;seat 37 a window +9 ahead -9 row 0 3;"
+                + "seat 0 b window -9 ahead +9 row 9 3;seat 1 d ahead +9 row 9 3;");
             c.due("much", x.ring(0, 1, 2), 45 + 9 + 36);
             c.due("back", x.ring(0, 2, 1), -16);
-            SeatSwap y = Texts.loaded("train 4 first 0;seat 1 a family 1;seat 8 b;seat 9 d;seat 10 e family 1;seat 11 f family 1;");
+            SeatSwap y = Texts.loaded("train 4 first 0;seat 1 a family 1;seat 8 b;seat 9 d;seat 10 e family 1;"
+                + "seat 11 f family 1;");
             c.due("of the three, not of all", y.ring(0, 1, 2), 8);
             c.due("sum", y.value(5), 10024);
             for (int t : Edges.outside(0, 4)) {
@@ -671,7 +679,8 @@ public final class EdgesOfCallsTest {
         e.plain("Goes on by stations.");
         e.says("1 to 50", c -> {
             for (int many = 1; many <= 50; many++) {
-                SeatSwap x = Texts.loaded("train 4 first 0;seat 0 a stop " + many + ";seat 1 b stop " + (many + 1) + ";");
+                SeatSwap x = Texts.loaded("train 4 first 0;seat 0 a stop " + many + ";seat 1 b stop " + (many + 1)
+                    + ";");
                 c.due("station " + many, x.station(many), 1);
                 c.due("time", x.value(2), many);
                 c.due("b is left", x.of(0, 0), 1);
@@ -785,7 +794,8 @@ public final class EdgesOfCallsTest {
             }
             c.due("no operation", x.value(16), 0);
         });
-        e.says("Returns the number of travellers then; INVALID for an invalid argument; NOT_FOUND if the slot is empty.", c -> {
+        e.says("Returns the number of travellers then; INVALID for an invalid argument; NOT_FOUND if the slot is "
+            + "empty.", c -> {
             SeatSwap x = Texts.loaded("train 10 first 0;");
             c.due("empty", x.restore(0), SeatSwap.NOT_FOUND);
             c.due("no operation", x.value(16), 0);

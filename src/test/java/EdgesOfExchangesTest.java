@@ -1,15 +1,15 @@
 /** The edges that sections 3 to 5 of the document's terms name: exchanges and reasons, stations, the log. */
 public final class EdgesOfExchangesTest {
     /** Found by a long search: it settles by so many swaps. */
-    private static final String LONG = "train 10 first 0;seat 39 a family 1 window -2 ahead +2;seat 35 a family 3 ahead -3 row 1 3;"
-        + "seat 9 a family 1 window -1 ahead +5 row 9 1;seat 24 a family 2 window -2 ahead -1 row 3 2;"
-        + "seat 7 a family 2 window +2 ahead +3 row 0 3;seat 28 a family 3 window -3 ahead -2 row 2 1;"
-        + "seat 15 a family 3 window -2 ahead -2 row 5 1;seat 37 a family 2 window +1 ahead +1 row 4 3;"
-        + "seat 21 a family 1 window +2 ahead +5 row 7 2;seat 11 a family 5 window -1 ahead -2 row 6 1;"
-        + "seat 0 a family 1 window -5 ahead +6 row 8 2;seat 1 a family 1 window +3 ahead +8 row 9 3;"
-        + "seat 14 a window +1 ahead +1 row 6 1;seat 32 a;seat 26 a family 3 window +1 ahead -6 row 0 3;"
-        + "seat 34 a family 2 window +4 ahead -4 row 1 3;seat 2 a family 1 ahead +5 row 8 3;"
-        + "seat 33 a family 2 ahead -4 row 2 3;seat 5 a family 3 window -1 row 8 2;"
+    private static final String LONG = "train 10 first 0;seat 39 a family 1 window -2 ahead +2;"
+        + "seat 35 a family 3 ahead -3 row 1 3;seat 9 a family 1 window -1 ahead +5 row 9 1;"
+        + "seat 24 a family 2 window -2 ahead -1 row 3 2;seat 7 a family 2 window +2 ahead +3 row 0 3;"
+        + "seat 28 a family 3 window -3 ahead -2 row 2 1;seat 15 a family 3 window -2 ahead -2 row 5 1;"
+        + "seat 37 a family 2 window +1 ahead +1 row 4 3;seat 21 a family 1 window +2 ahead +5 row 7 2;"
+        + "seat 11 a family 5 window -1 ahead -2 row 6 1;seat 0 a family 1 window -5 ahead +6 row 8 2;"
+        + "seat 1 a family 1 window +3 ahead +8 row 9 3;seat 14 a window +1 ahead +1 row 6 1;seat 32 a;"
+        + "seat 26 a family 3 window +1 ahead -6 row 0 3;seat 34 a family 2 window +4 ahead -4 row 1 3;"
+        + "seat 2 a family 1 ahead +5 row 8 3;seat 33 a family 2 ahead -4 row 2 3;seat 5 a family 3 window -1 row 8 2;"
         + "seat 8 a family 1 window -5 ahead +9 row 8 3;";
     private static final int LONG_SWAPS = 88;
 
@@ -76,13 +76,14 @@ public final class EdgesOfExchangesTest {
     }
 
     private static SeatSwap pair(int likeOfAsker, int sweets, int likeOfOther) {
-        return Texts.loaded("train 4 first 0;seat 1 a window " + EdgesOfTermsTest.signed(likeOfAsker) + " sweets " + sweets
+        return Texts.loaded("train 4 first 0;seat 1 a window " + EdgesOfTermsTest.signed(likeOfAsker) + " sweets "
+            + sweets
             + ";seat 0 b window " + EdgesOfTermsTest.signed(likeOfOther) + " sweets 99;");
     }
 
     private static void swaps(Edges e) {
-        e.says("- To swap: a traveller, the asker, and another one exchange their SEATs, and the asker pays some SWEETS "
-            + "(0 to 9) to the other one.", c -> {
+        e.says("- To swap: a traveller, the asker, and another one exchange their SEATs, and the asker pays some "
+            + "SWEETS (0 to 9) to the other one.", c -> {
             for (int sweets = 0; sweets <= 9; sweets++) {
                 SeatSwap x = pair(9, 99, 0);
                 c.due("swap", x.swap(0, 1, sweets), 109);
@@ -116,8 +117,8 @@ public final class EdgesOfExchangesTest {
                 c.due("nothing is left", x.of(0, 7), 0);
             }
         });
-        e.says("3 the JOY of the asker would be greater by less than the SWEETS that are paid (with 0 SWEETS: would be "
-            + "less),", c -> {
+        e.says("3 the JOY of the asker would be greater by less than the SWEETS that are paid (with 0 SWEETS: would "
+            + "be less),", c -> {
             for (int rise = -9; rise <= 9; rise++) {
                 SeatSwap x = pair(rise, 99, 0);
                 for (int sweets = 0; sweets <= 9; sweets++) {
@@ -136,7 +137,8 @@ public final class EdgesOfExchangesTest {
     }
 
     private static void moves(Edges e) {
-        e.says("- To move to a SEAT that is free. Reasons: 5 it is not free (the own SEAT, too), 1, 6 the JOY would be less.",
+        e.says("- To move to a SEAT that is free. Reasons: 5 it is not free (the own SEAT, too), 1, 6 the JOY would "
+            + "be less.",
             c -> {
                 for (int like = -1; like <= 1; like++) {
                     SeatSwap x = Texts.loaded("train 3 first 1;seat 5 a window " + EdgesOfTermsTest.signed(like)
@@ -153,8 +155,8 @@ public final class EdgesOfExchangesTest {
     }
 
     private static void rings(Edges e) {
-        e.says("- To form a ring: the first one goes to the SEAT of the second one, the second one to that of the third one, "
-            + "the third one to that of the first one.", c -> {
+        e.says("- To form a ring: the first one goes to the SEAT of the second one, the second one to that of the "
+            + "third one, the third one to that of the first one.", c -> {
             int[][] orders = {{0, 1, 2}, {0, 2, 1}, {1, 0, 2}, {1, 2, 0}, {2, 0, 1}, {2, 1, 0}};
             int[] seats = {1, 6, 11};
             for (int[] o : orders) {
@@ -195,7 +197,8 @@ public final class EdgesOfExchangesTest {
             c.due("the asker loses none", pair(0, 99, -9).settle(), 1);
             c.due("a ticket", Texts.loaded("train 4 first 1;seat 5 a window +9;seat 0 b ticket;").settle(),
                 SeatSwap.NOT_FOUND);
-            c.due("no ticket is needed", Texts.loaded("train 4 first 1;seat 5 a window +9;seat 4 b ticket;").settle(), 1);
+            c.due("no ticket is needed", Texts.loaded("train 4 first 1;seat 5 a window +9;seat 4 b ticket;").settle(),
+                1);
         });
         e.says("and by which the sum of the JOYs of all travellers becomes greater,", c -> {
             c.due("the same sum", pair(0, 99, 0).settle(), SeatSwap.NOT_FOUND);
@@ -275,7 +278,8 @@ public final class EdgesOfExchangesTest {
             c.due("at first", x.value(2), 0);
         });
         e.says("A station: TIME grows by 1. Then all travellers whose STOP is TIME get off,", c -> {
-            SeatSwap x = Texts.loaded("train 4 first 0;seat 0 a stop 1;seat 1 b stop 2;seat 2 d stop 98;seat 3 f stop 99;");
+            SeatSwap x = Texts.loaded("train 4 first 0;seat 0 a stop 1;seat 1 b stop 2;seat 2 d stop 98;"
+                + "seat 3 f stop 99;");
             c.due("1", x.station(1), 1);
             c.due("2", x.station(1), 1);
             c.due("up to 52", x.station(50), 0);
@@ -297,7 +301,8 @@ public final class EdgesOfExchangesTest {
                 c.due("number", x.log(i, 1), 19 - i);
                 c.due("seat", x.log(i, 2), 19 - i);
             }
-            SeatSwap y = Texts.loaded("train 4 first 0;seat 8 a stop 2;seat 9 b;seat 10 d stop 1;seat 11 f stop 2;seat 7 g;");
+            SeatSwap y = Texts.loaded("train 4 first 0;seat 8 a stop 2;seat 9 b;seat 10 d stop 1;seat 11 f stop 2;"
+                + "seat 7 g;");
             c.due("two stations", y.station(2), 3);
             c.dueText("their entries", entry(y, 0) + " " + entry(y, 1) + " " + entry(y, 2), "4/2/10 4/2/11 4/0/8");
             c.due("b is 0", y.of(0, 0), 9);
@@ -371,8 +376,10 @@ public final class EdgesOfExchangesTest {
             c.dueText("from 39", entry(x, 0), "4/0/39");
             c.dueText("from 0, with the number that it had then", entry(x, 1), "4/0/0");
         });
-        e.says("5 the train settles (how many swaps, by how much the sum of the JOYs rose; its swaps have no entries),", c -> {
-            SeatSwap x = Texts.loaded("train 4 first 0;seat 1 a window +9;seat 0 b window -9;seat 5 d window +9;seat 4 f;");
+        e.says("5 the train settles (how many swaps, by how much the sum of the JOYs rose; its swaps have no entries),",
+            c -> {
+            SeatSwap x = Texts.loaded("train 4 first 0;seat 1 a window +9;seat 0 b window -9;seat 5 d window +9;"
+                + "seat 4 f;");
             c.due("settle", x.settle(), 2);
             c.dueText("entry", entry(x, 0), "5/2/27");
             c.due("entries", x.value(15), 1);

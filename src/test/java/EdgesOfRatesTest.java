@@ -41,7 +41,8 @@ public final class EdgesOfRatesTest {
                 c.due("what " + what, x.log(0, what), SeatSwap.INVALID);
             }
         });
-        e.says("Returns that part; INVALID for a negative i or any other what; NOT_FOUND if there are not so many.", c -> {
+        e.says("Returns that part; INVALID for a negative i or any other what; NOT_FOUND if there are not so many.",
+            c -> {
             SeatSwap x = new SeatSwap();
             c.due("none", x.log(0, 0), SeatSwap.NOT_FOUND);
             c.due("none, any other what", x.log(0, 3), SeatSwap.INVALID);
@@ -81,7 +82,8 @@ public final class EdgesOfRatesTest {
         });
         e.at("promise 36");
         e.plain("Returns the mean JOY.");
-        e.says("Returns the sum of all JOYs, as a double, divided by the number of travellers, as a double; 0 without any.", c -> {
+        e.says("Returns the sum of all JOYs, as a double, divided by the number of travellers, as a double; 0 without "
+            + "any.", c -> {
             c.dueNumber("nobody", new SeatSwap().meanJoy(), 0.0);
             for (int many = 1; many <= 20; many++) {
                 for (int joy = -1; joy <= 1; joy++) {
@@ -90,7 +92,8 @@ public final class EdgesOfRatesTest {
                         text.append("seat ").append(2 * t).append(" a").append(t == 0 ? " window "
                             + EdgesOfTermsTest.signed(joy) : "").append(";");
                     }
-                    c.dueNumber(joy + " for " + many, Texts.loaded(text.toString()).meanJoy(), (double) joy / (double) many);
+                    c.dueNumber(joy + " for " + many, Texts.loaded(text.toString()).meanJoy(),
+                        (double) joy / (double) many);
                 }
             }
             SeatSwap x = Texts.loaded("train 10 first 0;seat 39 a window -9 ahead -9 row 0 3 stop 1;");
@@ -102,28 +105,30 @@ public final class EdgesOfRatesTest {
 
     private static void plan(Edges e) {
         e.at("promise 37");
-        e.says("Returns the length of the plan: for each row a line: an equals sign (byte 61) if it is of the first class, "
-            + "otherwise a hyphen (byte 45), a greater-than sign (byte 62) if it looks FORWARD, otherwise a smaller-than sign "
-            + "(byte 60),", c -> {
+        e.says("Returns the length of the plan: for each row a line: an equals sign (byte 61) if it is of the first "
+            + "class, otherwise a hyphen (byte 45), a greater-than sign (byte 62) if it looks FORWARD, otherwise a "
+            + "smaller-than sign (byte 60),", c -> {
             for (int rows = 2; rows <= 10; rows++) {
                 for (int first = 0; first <= rows; first += first == 0 ? 1 : rows - 1) {
                     SeatSwap x = Texts.loaded("train " + rows + " first " + first + ";");
                     StringBuilder due = new StringBuilder();
                     for (int row = 0; row < rows; row++) {
-                        due.append((char) (row < first ? 61 : 45)).append((char) (row % 2 == 1 ? 62 : 60)).append("....\n");
+                        due.append((char) (row < first ? 61 : 45)).append((char) (row % 2 == 1 ? 62
+                            : 60)).append("....\n");
                     }
                     c.dueText("plan", Texts.plan(x), due.toString());
                 }
             }
         });
-        e.says("then for each SEAT the first letter of the name of who has it, as a capital letter (A to Z) if the traveller "
-            + "GRUMBLES, or a full stop (byte 46) if it is free; and a line feed (byte 10).", c -> {
+        e.says("then for each SEAT the first letter of the name of who has it, as a capital letter (A to Z) if the "
+            + "traveller GRUMBLES, or a full stop (byte 46) if it is free; and a line feed (byte 10).", c -> {
             for (int letter = 0; letter < 26; letter++) {
                 String name = "" + (char) ('a' + letter);
                 for (int seat = 0; seat < 40; seat += 13) {
                     for (int joy = -1; joy <= 1; joy++) {
                         SeatSwap x = Texts.loaded("train 10 first 0;seat " + seat + " " + name + "xyz window "
-                            + EdgesOfTermsTest.signed(joy) + " ahead " + EdgesOfTermsTest.signed(joy) + " row " + seat / 4
+                            + EdgesOfTermsTest.signed(joy) + " ahead " + EdgesOfTermsTest.signed(joy) + " row "
+                            + seat / 4
                             + " 3;");
                         boolean grumbles = joy < 0 && x.value(6) == 1;
                         c.due("letter", x.planByte(seat / 4 * 7 + 2 + seat % 4), (grumbles ? 'A' : 'a') + letter);
@@ -230,16 +235,18 @@ public final class EdgesOfRatesTest {
                 }
             }
         });
-        e.says("tokens are separated by one space, but there is no space behind a plus or minus sign or before a semicolon, and "
-            + "nothing between a semicolon and the next token;", c -> {
-            SeatSwap x = Texts.loaded("\n train10first1 ;\nseat 3 a ticket family 1window + 1ahead - 1row 1 1sweets 1stop 1 ; "
-                + "seat12b ;\n");
-            c.dueText("setup", Texts.setup(x), "train 10 first 1;seat 3 a ticket family 1 window +1 ahead -1 row 1 1 sweets 1 "
-                + "stop 1;seat 12 b;");
+        e.says("tokens are separated by one space, but there is no space behind a plus or minus sign or before a "
+            + "semicolon, and nothing between a semicolon and the next token;", c -> {
+            SeatSwap x = Texts.loaded("\n train10first1 ;\nseat 3 a ticket family 1window + 1ahead - 1row 1 1sweets "
+                + "1stop 1 ; seat12b ;\n");
+            c.dueText("setup", Texts.setup(x), "train 10 first 1;"
+                + "seat 3 a ticket family 1 window +1 ahead -1 row 1 1 sweets 1 stop 1;seat 12 b;");
         });
         e.says("INTs are in decimal without leading zeros.", c -> {
-            SeatSwap x = Texts.loaded("train 02 first 00;seat 00 a family 01 window +01 ahead -09 row 00 03 sweets 05 stop 07;");
-            c.dueText("setup", Texts.setup(x), "train 2 first 0;seat 0 a family 1 window +1 ahead -9 row 0 3 sweets 5 stop 7;");
+            SeatSwap x = Texts.loaded("train 02 first 00;seat 00 a family 01 window +01 ahead -09 row 00 03 sweets 05 "
+                + "stop 07;");
+            c.dueText("setup", Texts.setup(x), "train 2 first 0;"
+                + "seat 0 a family 1 window +1 ahead -9 row 0 3 sweets 5 stop 7;");
             for (int number = 1; number <= 99; number++) {
                 same(c, "train 10 first 0;seat 39 a sweets " + number + (number < 99 ? " stop " + number : "") + ";");
             }

@@ -8,10 +8,10 @@ public final class EdgesOfTermsTest {
 
     static void list(Edges e) {
         e.at("what");
-        e.plain("A train of strangers who exchange seats: rows of four seats that look forward or back, tables that two "
-            + "rows share, tickets of two classes, families, likes and dislikes, joys, swaps that are paid with sweets, "
-            + "moves to free seats, rings of three, a settling by which joys rise, stations where travellers get off, "
-            + "grumbles by table, ranks, reasons, and what other seats, prices and tickets would bring.");
+        e.plain("A train of strangers who exchange seats: rows of four seats that look forward or back, tables that "
+            + "two rows share, tickets of two classes, families, likes and dislikes, joys, swaps that are paid with "
+            + "sweets, moves to free seats, rings of three, a settling by which joys rise, stations where travellers "
+            + "get off, grumbles by table, ranks, reasons, and what other seats, prices and tickets would bring.");
         e.at("term 0");
         e.says("Each traveller has one seat.", EdgesOfTermsTest::oneSeat);
         train(e);
@@ -124,7 +124,8 @@ public final class EdgesOfTermsTest {
 
     private static void travellers(Edges e) {
         e.at("term 2");
-        e.says("There are up to 20 travellers, numbered from 0 in the order in which they came,", EdgesOfTermsTest::twenty);
+        e.says("There are up to 20 travellers, numbered from 0 in the order in which they came,",
+            EdgesOfTermsTest::twenty);
         e.says("each with a name (1 to 5 letters a to z),", EdgesOfTermsTest::names);
         e.says("a TICKET (1 first class, 0 not),", c -> {
             for (int ticket = 0; ticket <= 1; ticket++) {

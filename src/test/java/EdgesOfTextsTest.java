@@ -46,8 +46,8 @@ public final class EdgesOfTextsTest {
             text(c, "train 2 first 0;seat 0 a family1window+1ahead-1row1 1sweets1stop1;", OK);
             text(c, "train 2 first 0;seat 0 a row 11;", 29);
         });
-        e.says("White space (bytes 32 and 10) may stand before the first token, between any two tokens and after the last "
-            + "one.", c -> {
+        e.says("White space (bytes 32 and 10) may stand before the first token, between any two tokens and after the "
+            + "last one.", c -> {
             for (int one = 0; one < 256; one++) {
                 char sign = (char) one;
                 boolean white = one == 32 || one == 10;
@@ -60,14 +60,15 @@ public final class EdgesOfTextsTest {
             }
             text(c, " \n\n  \n", 6);
             text(c, "", 0);
-            text(c, "\n train \n 2 \n first \n 0 \n ; \n seat \n 0 \n a \n ticket \n family \n 1 \n window \n + \n 1 \n "
-                + "ahead \n - \n 1 \n row \n 1 \n 1 \n sweets \n 1 \n stop \n 1 \n ; \n ", OK);
+            text(c, "\n train \n 2 \n first \n 0 \n ; \n seat \n 0 \n a \n ticket \n family \n 1 \n window \n + \n 1 "
+                + "\n ahead \n - \n 1 \n row \n 1 \n 1 \n sweets \n 1 \n stop \n 1 \n ; \n ", OK);
             text(c, "train 2 first 0;seat 0 a b;", 25);
             text(c, "train 2 first 0;seat 0 a row 1 \n 1 1;", 35);
             text(c, "train 1 0 first 0;", 6);
             text(c, "tra in 2 first 0;", 0);
         });
-        e.says("A maximal run of the letters a to z is a word; a word that is quoted in the grammar is a keyword,", c -> {
+        e.says("A maximal run of the letters a to z is a word; a word that is quoted in the grammar is a keyword,",
+            c -> {
             for (String keyword : KEYWORDS) {
                 text(c, "train 2 first 0;seat 0 " + keyword + ";", 23);
                 SeatSwap x = new SeatSwap();
@@ -119,7 +120,8 @@ public final class EdgesOfTextsTest {
                 text(c, "train 2" + (char) one + " first 0;", 7);
             }
         });
-        e.says("The plus sign, the minus sign and the semicolon are tokens by themselves. Nothing else is a token.", c -> {
+        e.says("The plus sign, the minus sign and the semicolon are tokens by themselves. Nothing else is a token.",
+            c -> {
             text(c, "train 2 first 0;seat 0 a window+1ahead-1;", OK);
             text(c, "train 2 first 0;seat 0 a window + 1 ahead - \n 1 ;", OK);
             text(c, "train 2 first 0;seat 0 a window ++1;", 33);
@@ -129,7 +131,8 @@ public final class EdgesOfTextsTest {
             text(c, "train 2 first 0;seat 0 a;;", 25);
             text(c, "train +2 first 0;", 6);
             for (int one = 0; one < 256; one++) {
-                boolean known = one == 32 || one == 10 || one == ';' || one >= '0' && one <= '9' || one >= 'a' && one <= 'z';
+                boolean known = one == 32 || one == 10 || one == ';' || one >= '0' && one <= '9' || one >= 'a'
+                    && one <= 'z';
                 if (!known) {
                     text(c, "train 2 first 0;seat 0 a" + (char) one + ";", 24);
                     text(c, "train 2 first 0;seat 0" + (char) one + " a;", 22);
@@ -152,8 +155,8 @@ public final class EdgesOfTextsTest {
             text(c, "train 2 first 0;0 a;", 16);
             text(c, "train 2 first 0;a;", 16);
         });
-        e.says("[ \"ticket\" ] [ \"family\" INT ] [ \"window\" like ] [ \"ahead\" like ] [ \"row\" INT INT ] [ \"sweets\" INT ] "
-            + "[ \"stop\" INT ] \";\" }", EdgesOfTextsTest::parts);
+        e.says("[ \"ticket\" ] [ \"family\" INT ] [ \"window\" like ] [ \"ahead\" like ] [ \"row\" INT INT ] [ "
+            + "\"sweets\" INT ] [ \"stop\" INT ] \";\" }", EdgesOfTextsTest::parts);
         e.says("like = ( \"+\" | \"-\" ) INT", c -> {
             text(c, "train 2 first 0;seat 0 a window 1;", 32);
             text(c, "train 2 first 0;seat 0 a window +;", 33);
@@ -164,8 +167,8 @@ public final class EdgesOfTextsTest {
             text(c, "train 2 first 0;seat 0 a row +1 1;", 29);
             text(c, "train 2 first 0;seat 0 a sweets +1;", 32);
         });
-        e.says("The INTs are ROWS, FIRST; the SEAT of a traveller; FAMILY (1 to 9); likes of the window and of looking forward "
-            + "(0 to 9 behind the sign); ROW and PULLS; SWEETS; STOP.", c -> {
+        e.says("The INTs are ROWS, FIRST; the SEAT of a traveller; FAMILY (1 to 9); likes of the window and of "
+            + "looking forward (0 to 9 behind the sign); ROW and PULLS; SWEETS; STOP.", c -> {
             for (int i = 0; i <= 99; i++) {
                 text(c, "train " + i + " first 0;", i >= 2 && i <= 10 ? OK : 6);
                 text(c, "train 10 first " + i + ";", i <= 10 ? OK : 15);
@@ -185,8 +188,8 @@ public final class EdgesOfTextsTest {
             }
         });
         e.says("Without them TICKET, FAMILY, likes, ROW, PULLS and SWEETS are 0, and STOP is 99.", c -> {
-            SeatSwap x = Texts.loaded("train 4 first 0;seat 0 a ticket family 9 window +9 ahead +9 row 3 3 sweets 99 stop 1;"
-                + "seat 15 b;");
+            SeatSwap x = Texts.loaded("train 4 first 0;seat 0 a ticket family 9 window +9 ahead +9 row 3 3 sweets 99 "
+                + "stop 1;seat 15 b;");
             int[] due = {15, 0, 0, 9, 9, 0, 0, 0, 99};
             for (int what = 0; what <= 8; what++) {
                 c.due("number " + what, x.of(1, what), due[what]);
@@ -219,7 +222,8 @@ public final class EdgesOfTextsTest {
     }
 
     private static void errors(Edges e) {
-        e.says("The error position is the index of the first byte of the first token that cannot stand where it stands;",
+        e.says("The error position is the index of the first byte of the first token that cannot stand where it "
+            + "stands;",
             c -> {
                 text(c, "train 2 first 0;seat 9 a family 0;", 21);
                 text(c, "train 2 first 0;seat 0 a family 0 stop 0;", 32);
@@ -279,10 +283,12 @@ public final class EdgesOfTextsTest {
         });
     }
 
-    /** Each beginning of a text: a word that is cut off is no keyword, but a name; a number that is cut off is one, too. */
+    /** Each beginning of a text: a word that is cut off is no keyword, but a name; a number that is cut off is one,
+        too. */
     private static void tooEarly(Check c) {
         List<String> tokens = new ArrayList<>();
-        String all = "train 10 first 10 ;seat 10 abcde ticket family 9 window + 9 ahead - 9 row 9 3 sweets 10 stop 10 ;";
+        String all = "train 10 first 10 ;seat 10 abcde ticket family 9 window + 9 ahead - 9 row 9 3 sweets 10 stop 10 "
+            + ";";
         for (String token : all.replace(";", "; ").replace("  ", " ").trim().split(" ")) {
             tokens.add(token);
         }
@@ -335,8 +341,8 @@ public final class EdgesOfTextsTest {
 
     private static void tape(Edges e) {
         e.at("promise 2");
-        e.says("Appends twenty bytes to the tape: the four bytes of a, most significant byte first, then those of b, c, d and "
-            + "e.", c -> {
+        e.says("Appends twenty bytes to the tape: the four bytes of a, most significant byte first, then those of b, "
+            + "c, d and e.", c -> {
             SeatSwap x = new SeatSwap();
             c.due("append", x.append(0x20202020, 0x20202020, 0x20202020, 0x20202020, 0x20202074), 20);
             c.due("append", x.append(0x7261696e, 0x32666972, 0x7374313b, 0x73656174, 0x34207878), 40);
@@ -353,7 +359,8 @@ public final class EdgesOfTextsTest {
             }
         });
         e.plain("bytes 0 to 3", "bytes 4 to 7", "bytes 8 to 11", "bytes 12 to 15", "bytes 16 to 19");
-        e.says("Returns the new length of the tape; INVALID if it would exceed 1000 bytes (nothing is appended).", c -> {
+        e.says("Returns the new length of the tape; INVALID if it would exceed 1000 bytes (nothing is appended).",
+            c -> {
             for (int cut = 0; cut <= 20; cut++) {
                 SeatSwap x = new SeatSwap();
                 for (int i = 1; i <= 50; i++) {
@@ -429,8 +436,8 @@ public final class EdgesOfTextsTest {
             c.due("slot 0", x.restore(0), 2);
             c.due("slot 1", x.restore(1), SeatSwap.NOT_FOUND);
         });
-        e.says("Otherwise everything is replaced (TIME and all counts are 0), the log and the slots are empty, and nothing can "
-            + "be undone.", c -> {
+        e.says("Otherwise everything is replaced (TIME and all counts are 0), the log and the slots are empty, and "
+            + "nothing can be undone.", c -> {
             for (String same : new String[] {"train 4 first 1;", "train 10 first 0;seat 39 z;", "train 2 first 2;"}) {
                 SeatSwap x = busy();
                 x.ifSettled(0);

@@ -8,7 +8,8 @@ public final class LongRunsTest {
 
     static void list(Edges e) {
         e.at("what");
-        e.says("An object is used for at most 512 calls after it has been made; what later calls answer is free.", c -> {
+        e.says("An object is used for at most 512 calls after it has been made; what later calls answer is free.",
+            c -> {
             moves(c);
             undone(c);
             stations(c);
