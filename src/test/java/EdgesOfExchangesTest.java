@@ -1,7 +1,7 @@
 /** The edges that sections 3 to 5 of the document's terms name: exchanges and reasons, stations, the log. */
 public final class EdgesOfExchangesTest {
     /** Found by a long search: it settles by so many swaps. */
-    private static final String LONG = "train 10 first 0;seat 39 a family 1 window -2 ahead +2;"
+    static final String LONG = "train 10 first 0;seat 39 a family 1 window -2 ahead +2;"
         + "seat 35 a family 3 ahead -3 row 1 3;seat 9 a family 1 window -1 ahead +5 row 9 1;"
         + "seat 24 a family 2 window -2 ahead -1 row 3 2;seat 7 a family 2 window +2 ahead +3 row 0 3;"
         + "seat 28 a family 3 window -3 ahead -2 row 2 1;seat 15 a family 3 window -2 ahead -2 row 5 1;"

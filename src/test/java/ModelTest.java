@@ -24,6 +24,7 @@ public final class ModelTest {
         for (int run = 0; run < RUNS; run++) {
             new ModelTest(check, run).runAll();
         }
+        new ModelTest(check, RUNS).settleLong();
         check.end();
     }
 
@@ -41,6 +42,19 @@ public final class ModelTest {
         while (calls < CALLS - 60) {
             change();
             look(random.nextInt(6));
+        }
+    }
+
+    private void settleLong() {
+        load(EdgesOfExchangesTest.LONG);
+        for (int i = 0; i < 3; i++) {
+            same("settle", x.settle(), m.settle());
+            for (int what = 5; what <= 8; what++) {
+                same("value " + what, x.value(what), m.value(what));
+            }
+            for (int t = 0; t < 20; t++) {
+                same("seat of " + t, x.of(t, 0), m.of(t, 0));
+            }
         }
     }
 
