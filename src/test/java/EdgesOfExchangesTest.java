@@ -1,17 +1,16 @@
 /** The edges that sections 3 to 5 of the document's terms name: exchanges and reasons, stations, the log. */
 public final class EdgesOfExchangesTest {
-    /** Found by a long search: it settles by so many swaps. */
-    static final String LONG = "train 10 first 0;seat 39 a family 1 window -2 ahead +2;"
-        + "seat 35 a family 3 ahead -3 row 1 3;seat 9 a family 1 window -1 ahead +5 row 9 1;"
-        + "seat 24 a family 2 window -2 ahead -1 row 3 2;seat 7 a family 2 window +2 ahead +3 row 0 3;"
-        + "seat 28 a family 3 window -3 ahead -2 row 2 1;seat 15 a family 3 window -2 ahead -2 row 5 1;"
-        + "seat 37 a family 2 window +1 ahead +1 row 4 3;seat 21 a family 1 window +2 ahead +5 row 7 2;"
-        + "seat 11 a family 5 window -1 ahead -2 row 6 1;seat 0 a family 1 window -5 ahead +6 row 8 2;"
-        + "seat 1 a family 1 window +3 ahead +8 row 9 3;seat 14 a window +1 ahead +1 row 6 1;seat 32 a;"
-        + "seat 26 a family 3 window +1 ahead -6 row 0 3;seat 34 a family 2 window +4 ahead -4 row 1 3;"
-        + "seat 2 a family 1 ahead +5 row 8 3;seat 33 a family 2 ahead -4 row 2 3;seat 5 a family 3 window -1 row 8 2;"
-        + "seat 8 a family 1 window -5 ahead +9 row 8 3;";
-    private static final int LONG_SWAPS = 88;
+    /** Found by a long search: 100 swaps follow one another, one more than a settling does. */
+    static final String LONG = "train 10 first 0;seat 28 a family 6 window +6 row 0 3;"
+        + "seat 38 a family 6 window +8 ahead +8 row 0 2;seat 37 a family 6 window +6 ahead +3 row 0 2;"
+        + "seat 7 a family 3 window -8 ahead -8 row 4 1;seat 33 a window +6 row 7 1;"
+        + "seat 20 a family 9 window -2 ahead +2 row 4 3;seat 0 a family 9 window -1 row 9 1;"
+        + "seat 16 a family 3 window -2 ahead -1;seat 30 a family 6 window +8 ahead +8 row 0 1;"
+        + "seat 39 a family 3 window -5 ahead -6 row 3 3;seat 18 a family 3 ahead +3 row 8 2;"
+        + "seat 21 a family 2 window -1 ahead -3 row 0 1;seat 12 a family 3 ahead -9 row 7 1;"
+        + "seat 27 a window -1 row 0 1;seat 13 a family 3 window +1 ahead +3 row 8 2;seat 5 a;"
+        + "seat 34 a family 6 window +6 ahead +7 row 0 3;seat 32 a family 9 window +1 ahead +2 row 6 1;"
+        + "seat 2 a family 3 window -3 ahead -3 row 9 3;seat 8 a family 2 ahead -2 row 7 3;";
 
     public static void main(String[] args) {
         Edges edges = new Edges();
@@ -238,20 +237,26 @@ public final class EdgesOfExchangesTest {
     private static void longSettling(Check c) {
         SeatSwap x = Texts.loaded(LONG);
         int before = x.value(5);
-        int done = Math.min(LONG_SWAPS, 99);
-        c.due("if", x.ifSettled(0), done);
+        c.due("if", x.ifSettled(0), 99);
         int then = x.ifSettled(1);
         int grumblers = x.ifSettled(2);
-        c.due("settle", x.settle(), done);
-        c.due("swaps", x.value(8), done);
+        c.due("settle", x.settle(), 99);
+        c.due("swaps", x.value(8), 99);
         c.due("sum", x.value(5), then);
         c.due("grumblers", x.value(6), grumblers);
-        c.dueText("entry", entry(x, 0), "5/" + done + "/" + (then - before));
-        int left = LONG_SWAPS - done;
-        c.due("if again", x.ifSettled(0), left);
-        c.due("again", x.settle(), left > 0 ? left : SeatSwap.NOT_FOUND);
-        c.due("swaps", x.value(8), LONG_SWAPS);
+        c.dueText("entry", entry(x, 0), "5/99/" + (then - before));
+        c.due("if again", x.ifSettled(0), 1);
+        int last = x.ifSettled(1);
+        c.that("the hundredth swap makes the sum greater, too", last > then);
+        c.due("again", x.settle(), 1);
+        c.due("swaps", x.value(8), 100);
+        c.due("sum", x.value(5), last);
+        c.dueText("entry", entry(x, 1), "5/1/" + (last - then));
+        c.due("if settled", x.ifSettled(0), 0);
         c.due("settled", x.settle(), SeatSwap.NOT_FOUND);
+        c.due("undo", x.undo(), 1);
+        c.due("swaps", x.value(8), 99);
+        c.due("sum", x.value(5), then);
     }
 
     private static void stations(Edges e) {
